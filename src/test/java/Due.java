@@ -1,0 +1,60 @@
+/** Counts answers that are not the ones due, and tells a text to a house. */
+final class Due {
+    static int wrong = 0;
+    static int asked = 0;
+
+    private Due() {
+    }
+
+    static void is(String what, long got, long want) {
+        asked++;
+        if (got != want) {
+            wrong++;
+            System.out.println(what + " answered " + got + ", due is " + want);
+        }
+    }
+
+    static void is(String what, boolean got, boolean want) {
+        is(what, got ? 1 : 0, want ? 1 : 0);
+    }
+
+    /** The bytes of the text come behind the tape, which is cut behind them. */
+    static void tape(AliasHouse x, String text, int before) {
+        for (int i = 0; i < text.length(); i += 20) {
+            x.feed(four(text, i), four(text, i + 4), four(text, i + 8), four(text, i + 12), four(text, i + 16));
+        }
+        x.end(before + text.length());
+    }
+
+    static int four(String text, int from) {
+        int v = 0;
+        for (int i = from; i < from + 4; i++) {
+            v = v << 8 | (i < text.length() ? text.charAt(i) & 255 : 32);
+        }
+        return v;
+    }
+
+    static int text(AliasHouse x, int k, String text) {
+        tape(x, text, 0);
+        return x.text(k);
+    }
+
+    static void lines(AliasHouse x, int k, String text, int lines) {
+        is("text " + k + " \"" + text + "\"", text(x, k, text), lines);
+        is("fault of \"" + text + "\"", x.fault(0), 0);
+        is("place of \"" + text + "\"", x.fault(1), -1);
+    }
+
+    static void fault(AliasHouse x, int k, String text, int fault, int place) {
+        is("text " + k + " \"" + text + "\"", text(x, k, text), -1);
+        is("fault of \"" + text + "\"", x.fault(0), fault);
+        is("place of \"" + text + "\"", x.fault(1), place);
+    }
+
+    static void finish(String name) {
+        System.out.println(name + ": " + asked + " asked, " + wrong + " wrong");
+        if (wrong != 0) {
+            System.exit(1);
+        }
+    }
+}
