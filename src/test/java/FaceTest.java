@@ -20,6 +20,7 @@ final class FaceTest {
         undo();
         whatForgets();
         image();
+        imageOfTheBook();
         look();
         extremes();
         Due.finish("FaceTest");
@@ -183,11 +184,23 @@ final class FaceTest {
         Due.is("debt", x.look(2), 0);
         Due.is("purse", x.who(1, 1), 34);
         Due.is("paid", x.act(2, 1, 0), false);
+        payOfOne();
         int[] line = {0, 1, 4, 1, 6};
         for (int what = 0; what < 5; what++) {
             Due.is("line 1, " + what, x.book(1, what), line[what]);
         }
         Due.is("line 0, how much", x.book(0, 4), 4);
+    }
+
+    private static void payOfOne() {
+        AliasHouse x = house();
+        x.set(2, 1, 0);
+        Due.lines(x, 0, "gains 0; costs 1; seen 0;", 3);
+        x.act(0, 2, 3);
+        x.hours(1);
+        Due.is("pay 1", x.act(2, 0, 0), true);
+        Due.is("purse", x.who(0, 1), 99);
+        Due.is("debt", x.look(2), 0);
     }
 
     private static void feed() {
@@ -513,10 +526,12 @@ final class FaceTest {
     private static void image() {
         AliasHouse x = walked();
         x.state(77);
-        x.hours(1);
+        x.set(0, 0, 6);
+        x.set(4, 2, 55);
+        Due.is("one struck", x.hours(1), 1);
         int state = x.look(9);
         Due.lines(x, 0, "seen 1; seen 2;", 2);
-        Due.lines(x, 1, "alias 0 from 0 to 3 in 5;", 1);
+        Due.lines(x, 1, "alias 0 from 2 to 3 in 5;", 1);
         Due.lines(x, 2, "on 500 at 0 lie 0;", 1);
         Due.lines(x, 3, "street 1 by 2;", 1);
         tellThoughts(x);
@@ -525,11 +540,13 @@ final class FaceTest {
         Due.is("taken", x.image(true), true);
         Due.is("what can be undone stays", x.look(14), 1);
         Due.is("undo", x.undo(), true);
-        spoil(x);
-        x.end(0);
-        Due.fault(x, 0, "seen", 1, 4);
-        Due.tape(x, "alias", 0);
+        Due.is("the tape stays", x.end(7), false);
+        Due.is("the tape stays", x.end(6), true);
         for (int twice = 0; twice < 2; twice++) {
+            x.end(0);
+            spoil(x);
+            Due.fault(x, 0, "seen", 1, 4);
+            Due.tape(x, "alias", 0);
             x.act(0, 0, 1);
             Due.is("gone back to", x.image(false), true);
             Due.is("nothing to undo", x.undo(), false);
@@ -537,7 +554,6 @@ final class FaceTest {
             Due.is("the tape stays", x.end(5), true);
             Due.is("the fault stays", x.fault(1), 4);
             asTaken(x, state);
-            spoil(x);
         }
     }
 
@@ -557,6 +573,11 @@ final class FaceTest {
     private static void asTaken(AliasHouse x, int state) {
         Due.is("state", x.look(9), state);
         Due.is("hour", x.look(5), 1);
+        Due.is("caught", x.look(4), 1);
+        Due.is("struck", x.look(7), 4);
+        Due.is("book", x.look(8), 1);
+        Due.is("book", x.book(0, 3), 2);
+        Due.is("book", x.book(0, 4), 55);
         Due.is("persons", x.look(0), 2);
         Due.is("aliases", x.look(1), 3);
         for (int what = 10; what <= 13; what++) {
@@ -564,9 +585,11 @@ final class FaceTest {
         }
         Due.is("the law", x.of(0, 7), 1);
         Due.is("shares", x.least(0), 1);
+        Due.is("shares", x.least(1), 2);
         Due.is("beside", x.street(1, 2), 4);
         Due.is("out", x.of(1, 3), 8);
         Due.is("eyes", x.street(8, 0), 0);
+        Due.is("eyes", x.street(0, 0), 6);
         Due.is("wits", x.who(0, 0), 2);
         Due.is("sighting", x.persons(-1, 0), 1);
         Due.is("names", x.names(0), 9);
@@ -588,11 +611,18 @@ final class FaceTest {
         Due.is("loan", x.loan(5, 4, 9), 2);
     }
 
+    /** Whatever the image holds becomes another. */
     private static void spoil(AliasHouse x) {
+        Due.text(x, 0, "seen 9;");
+        Due.text(x, 1, "alias 1 from 5 to 6 in 5; alias 1 from 5 to 6 in 5;");
+        Due.text(x, 2, "on 500 at 0 lie 0; on 501 at 0 lie 0;");
+        Due.text(x, 3, "street 3 by 4; street 3 by 5;");
         x.person(9, 9);
         x.alias(0, 9, 9);
         x.set(0, 8, 5);
+        x.set(0, 0, 0);
         x.set(1, 0, 7);
+        x.set(4, 0, 60);
         x.sighted(-1, 0);
         x.pair(-1, 0, true);
         x.says(-1, 0, true);
@@ -604,6 +634,23 @@ final class FaceTest {
         x.box(-1);
         x.loan(-1, 0, 0);
         x.hours(3);
+    }
+
+    /** THE BOOK of the image is its own: other lines are written here in the place of those that were undone. */
+    private static void imageOfTheBook() {
+        AliasHouse x = house();
+        x.set(4, 0, 51);
+        x.hours(1);
+        x.image(true);
+        x.undo();
+        x.set(4, 0, 0);
+        x.set(4, 1, 77);
+        x.hours(5);
+        Due.is("another line", x.book(0, 4), 77);
+        x.image(false);
+        Due.is("one line", x.look(8), 1);
+        Due.is("who", x.book(0, 3), 0);
+        Due.is("how much", x.book(0, 4), 51);
     }
 
     private static void look() {

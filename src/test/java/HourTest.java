@@ -85,8 +85,22 @@ final class HourTest {
         x.hours(1);
         Due.is("day 1 at 1", x.street(8, 0), 4);
         Due.is("given once", x.who(1, 1), 12);
+        eyesOfEachStreet();
         fullPurse();
         struckOnesDoNotWalk();
+    }
+
+    private static void eyesOfEachStreet() {
+        AliasHouse x = new AliasHouse();
+        StringBuilder lines = new StringBuilder();
+        for (int s = 0; s < 10; s++) {
+            lines.append("on 0 at 0 eyes ").append(s).append(' ').append(1 + s % 9).append(';');
+        }
+        Due.lines(x, 2, lines.toString(), 10);
+        x.hours(1);
+        for (int s = 0; s < 10; s++) {
+            Due.is("eyes", x.street(s, 0), 1 + s % 9);
+        }
     }
 
     private static void fullPurse() {

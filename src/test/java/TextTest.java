@@ -17,6 +17,7 @@ final class TextTest {
         shares();
         diary();
         streets();
+        fullTape();
         sixteenLines();
         Due.finish("TextTest");
     }
@@ -82,6 +83,15 @@ final class TextTest {
         Due.is("seen", x.of(0, 7), 5);
         Due.is("gains", x.of(0, 9), 7);
         Due.lines(x, 0, "seen 5when 1<2and 3>2or 1=1;", 1);
+        for (String letter : new String[] {"a", "z", "A", "Z", "m", "M"}) {
+            Due.fault(x, 0, "seen" + letter + " 1;", 1, 0);
+            Due.fault(x, 0, letter + "seen 1;", 1, 0);
+        }
+        Due.fault(x, 0, "seen@ 1;", 1, 4);
+        Due.fault(x, 0, "seen[ 1;", 1, 4);
+        Due.fault(x, 0, "seen` 1;", 1, 4);
+        Due.fault(x, 0, "seen{ 1;", 1, 4);
+        Due.fault(x, 0, "seen 1:", 1, 6);
         Due.fault(x, 0, "seenrank;", 1, 0);
         Due.fault(x, 0, "seen rankwits;", 1, 5);
         Due.fault(x, 0, "Seen 1;", 1, 0);
@@ -105,6 +115,8 @@ final class TextTest {
         Due.is("9999", x.of(0, 9), 9);
         Due.is("9998", x.of(0, 8), 1);
         Due.fault(x, 0, "seen 00009;", 1, 5);
+        Due.fault(x, 0, "00000 1;", 1, 0);
+        Due.fault(x, 0, "seen 00007;", 1, 5);
         Due.fault(x, 0, "seen 12345;", 1, 5);
         Due.fault(x, 0, "seen 1 2;", 1, 7);
         Due.fault(x, 0, "seen 1/12345;", 1, 7);
@@ -221,6 +233,7 @@ final class TextTest {
         Due.is("hour", seen(x, "hour"), 2);
         Due.is("street", seen(x, "street"), 4);
         Due.is("others out there", seen(x, "others"), 2);
+        Due.is("others of another", x.of(2, 7), 2);
         Due.is("others of one who lies there", x.of(3, 7), 3);
         Due.is("day", seen(x, "day"), 2);
         for (String word : new String[] {"seen", "costs", "gains", "when", "or", "not", "alias", "from", "on"}) {
@@ -293,6 +306,13 @@ final class TextTest {
         Due.fault(x, 1, "alias 0 from 5 to 5 in 1", 1, 24);
         Due.fault(x, 1, "alias 0 from 5 to 5 in 1 alias", 1, 25);
         Due.fault(x, 1, "seen 1;", 1, 0);
+        Due.fault(x, 1, "alias alias 0 from 5 to 5 in 1;", 1, 6);
+        Due.fault(x, 1, "alias 0 alias 0 from 5 to 5 in 1;", 1, 8);
+        Due.fault(x, 1, "alias 0 from alias 0 from 5 to 5 in 1;", 1, 13);
+        Due.fault(x, 1, "alias 0 from 5 alias 0 from 5 to 5 in 1;", 1, 15);
+        Due.fault(x, 1, "alias 0 from 5 to alias 0 from 5 to 5 in 1;", 1, 18);
+        Due.fault(x, 1, "alias 0 from 5 to 5 alias 0 from 5 to 5 in 1;", 1, 20);
+        Due.fault(x, 1, "alias 0 from 5 to 5 in alias 0 from 5 to 5 in 1;", 1, 23);
         Due.fault(new AliasHouse(), 1, "alias 0 from 0 to 0 in 0;", 2, 6);
     }
 
@@ -319,6 +339,13 @@ final class TextTest {
         Due.fault(x, 2, "on at 2;", 1, 3);
         Due.fault(x, 2, "on 1 at lie;", 1, 8);
         Due.fault(x, 2, "at 1;", 1, 0);
+        Due.fault(x, 2, "on on 1 at 2 lie 0;", 1, 3);
+        Due.fault(x, 2, "on 1 on 1 at 2 lie 0;", 1, 5);
+        Due.fault(x, 2, "on 1 at on 1 at 2 lie 0;", 1, 8);
+        Due.fault(x, 2, "on 1 at 2 on 1 at 2 lie 0;", 1, 10);
+        Due.fault(x, 2, "on 1 at 2 lie on 1 at 2 lie 0;", 1, 14);
+        Due.fault(x, 2, "on 1 at 2 walk 0 on 1 at 2 lie 0;", 1, 17);
+        Due.fault(x, 2, "on 1 at 2 lie 0 on 1 at 2 lie 0;", 1, 16);
         Due.fault(x, 2, "on 1 at 2 lie 0", 1, 15);
     }
 
@@ -335,6 +362,28 @@ final class TextTest {
         Due.fault(x, 3, "street 1 by;", 1, 11);
         Due.fault(x, 3, "street 1 by 2", 1, 13);
         Due.fault(x, 3, "by 2", 1, 0);
+        Due.fault(x, 3, "street street 1 by 2;", 1, 7);
+        Due.fault(x, 3, "street 1 street 1 by 2;", 1, 9);
+        Due.fault(x, 3, "street 1 by street 1 by 2;", 1, 12);
+        Due.fault(x, 3, "street 1 by 2 street 1 by 2;", 1, 14);
+    }
+
+    private static void fullTape() {
+        AliasHouse x = house();
+        // a law of 400 bytes: more than one of them in a row must have room
+        String sum = "seen 1" + times(196, "+1") + ";";
+        Due.is("bytes", sum.length(), 399);
+        for (int i = 0; i < 3; i++) {
+            Due.lines(x, 0, sum + " ", 1);
+            Due.is("197", x.of(0, 7), 197);
+        }
+        Due.fault(x, 0, sum.substring(0, 398) + "+1", 1, 400);
+        Due.fault(x, 0, times(400, ";"), 1, 0);
+        Due.fault(x, 0, times(400, "a"), 1, 0);
+        Due.fault(x, 0, times(400, "1"), 1, 0);
+        Due.lines(x, 0, times(400, " "), 0);
+        Due.lines(x, 0, times(12, "seen 1+1+1+1+1+1 when 1=1or 1=1;"), 12);
+        Due.is("6", x.of(0, 7), 6);
     }
 
     private static void sixteenLines() {

@@ -6,6 +6,7 @@ final class ThoughtTest {
     public static void main(String[] args) {
         sighted();
         persons();
+        tenInARow();
         pair();
         names();
         says();
@@ -51,6 +52,10 @@ final class ThoughtTest {
         Due.is("a 10", x.persons(10, 0), -1);
         Due.is("b -1", x.persons(0, -1), -1);
         Due.is("b 10", x.persons(0, 10), -1);
+        Due.is("no street 10", x.persons(10, 10), -1);
+        Due.is("no street 11", x.persons(11, 11), -1);
+        Due.is("no street 32", x.persons(0, 32), -1);
+        Due.is("no street 32", x.persons(32, 0), -1);
         Due.is("alike", x.persons(9, 9), 0);
         Due.is("no way", x.persons(0, 9), -1);
         StringBuilder chain = new StringBuilder();
@@ -98,6 +103,20 @@ final class ThoughtTest {
         Due.is("a fourth", x.persons(-1, 0), 4);
     }
 
+    private static void tenInARow() {
+        for (int turn = 0; turn < 2; turn++) {
+            AliasHouse x = new AliasHouse();
+            Due.lines(x, 3, "street 0 by 1;", 1);
+            for (int i = 0; i < 10; i++) {
+                int place = turn == 0 ? i : 9 - i;
+                x.sighted(5 * place, place % 2);
+            }
+            Due.is("one saw all ten", x.persons(-1, 0), 1);
+            x.text(3);
+            Due.is("two did", x.persons(-1, 0), 2);
+        }
+    }
+
     private static void pair() {
         AliasHouse x = new AliasHouse();
         Due.is("a -2", x.pair(-2, 0, true), -1);
@@ -139,6 +158,18 @@ final class ThoughtTest {
         Due.is("can't be", x.names(1), 0);
         Due.is("none", x.names(2), -1);
         Due.is("groups all the same", x.names(0), 7);
+        x.pair(-1, 0, true);
+        Due.is("none is apart now", x.names(2), 1);
+        x.pair(0, 1, false);
+        Due.is("two", x.names(2), 2);
+        x.pair(9, 1, false);
+        x.pair(0, 9, false);
+        Due.is("three", x.names(2), 3);
+        x.pair(-1, 0, true);
+        x.pair(0, 2, false);
+        x.pair(2, 3, false);
+        x.pair(3, 1, false);
+        Due.is("0 and 1 are not to be one: two", x.names(2), 2);
         x.pair(-1, 0, true);
         for (int a = 0; a < 4; a++) {
             for (int b = a + 1; b < 5; b++) {
@@ -255,6 +286,11 @@ final class ThoughtTest {
         Due.lines(x, 1, "alias 0 from 0 to 23 in 1; alias 0 from 0 to 23 in 2; alias 1 from 23 to 23 in 2;", 3);
         Due.is("three coats", x.least(0), 3);
         Due.is("at 23", x.least(1), 23);
+        Due.lines(x, 1, "alias 0 from 1 to 2 in 1; alias 0 from 0 to 0 in 2; alias 1 from 0 to 0 in 2;", 3);
+        Due.is("at 0", x.least(1), 0);
+        Due.is("two coats", x.least(0), 2);
+        Due.lines(x, 1, "alias 0 from 0 to 23 in 1; alias 0 from 0 to 23 in 2; alias 1 from 23 to 23 in 2;", 3);
+        Due.is("at 23", x.least(1), 23);
     }
 
     private static void watch() {
@@ -351,6 +387,10 @@ final class ThoughtTest {
         Due.is("no shift", x.notes(0), -1);
         tell(x, "abcd", "dcaa");
         Due.is("no mirror", x.notes(1), 0);
+        tell(x, "abcd", "dcbb");
+        Due.is("the first alone", x.notes(1), 0);
+        tell(x, "abcd", "ecba");
+        Due.is("the last alone", x.notes(1), 0);
         tell(x, "abcd", "abcd");
         Due.is("no mirror", x.notes(1), 0);
         Due.is("no shift is 0", x.notes(0), 0);
@@ -393,6 +433,8 @@ final class ThoughtTest {
             count += want[i] >= 0 ? 1 : 0;
         }
         Due.is("how many", x.beds(0), count);
+        Due.is("no such boot", x.beds(10 + want.length), -1);
+        Due.is("no such boot", x.beds(9), -1);
     }
 
     private static void beds() {
