@@ -821,6 +821,7 @@ public final class AliasHouse {
 
     /** THE LAW, its sums and conditions written one behind the other for a stack: numbers as they are, the rest below 0. */
     private static final class Law {
+        /** The words of lines have the numbers of their keywords. */
         static final int SEEN = 0;
         static final int COSTS = 1;
         static final int GAINS = 2;
@@ -1481,7 +1482,7 @@ public final class AliasHouse {
                 return fail(CANNOT_STAND);
             }
             step();
-            if (!stepNumber(0, lastOf(deed) - 1)) {
+            if (!stepNumber(0, countOf(deed) - 1)) {
                 return false;
             }
             int whose = number;
@@ -1497,7 +1498,7 @@ public final class AliasHouse {
             return true;
         }
 
-        private int lastOf(int deed) {
+        private int countOf(int deed) {
             if (deed == GIVE) {
                 return stock.world.persons;
             }

@@ -1,9 +1,20 @@
-/** Counts answers that are not the ones due, and tells a text to a house. */
+/** Counts answers that are not the ones due; makes a house and tells it a text. */
 final class Due {
     static int wrong = 0;
     static int asked = 0;
 
     private Due() {
+    }
+
+    /** Two persons; aliases 0 and 1 are of the first, 2 of the second; streets 1, 2, 1. */
+    static AliasHouse house() {
+        AliasHouse x = new AliasHouse();
+        x.person(2, 100);
+        x.person(3, 5);
+        x.alias(0, 5, 1);
+        x.alias(0, 7, 2);
+        x.alias(1, 2, 1);
+        return x;
     }
 
     static void is(String what, long got, long want) {

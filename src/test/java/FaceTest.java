@@ -26,16 +26,6 @@ final class FaceTest {
         Due.finish("FaceTest");
     }
 
-    private static AliasHouse house() {
-        AliasHouse x = new AliasHouse();
-        x.person(2, 100);
-        x.person(3, 5);
-        x.alias(0, 5, 1);
-        x.alias(0, 7, 2);
-        x.alias(1, 2, 1);
-        return x;
-    }
-
     private static void newObject() {
         Due.is("NONE", AliasHouse.NONE, -1);
         AliasHouse x = new AliasHouse();
@@ -107,7 +97,7 @@ final class FaceTest {
     }
 
     private static void set() {
-        AliasHouse x = house();
+        AliasHouse x = Due.house();
         int[] count = {10, 2, 2, 3, 3};
         int[] most = {9, 9, 9999, 9, 99};
         for (int what = 0; what < 5; what++) {
@@ -134,7 +124,7 @@ final class FaceTest {
     }
 
     private static void act() {
-        AliasHouse x = house();
+        AliasHouse x = Due.house();
         Due.is("walk -1", x.act(0, -1, 3), false);
         Due.is("walk 3", x.act(0, 3, 3), false);
         Due.is("street -1", x.act(0, 0, -1), false);
@@ -163,7 +153,7 @@ final class FaceTest {
     }
 
     private static void pay() {
-        AliasHouse x = house();
+        AliasHouse x = Due.house();
         x.set(2, 0, 0);
         x.set(2, 1, 0);
         Due.is("nothing to pay", x.act(2, 0, 0), false);
@@ -193,7 +183,7 @@ final class FaceTest {
     }
 
     private static void payOfOne() {
-        AliasHouse x = house();
+        AliasHouse x = Due.house();
         x.set(2, 1, 0);
         Due.lines(x, 0, "gains 0; costs 1; seen 0;", 3);
         x.act(0, 2, 3);
@@ -243,7 +233,7 @@ final class FaceTest {
     }
 
     private static void of() {
-        AliasHouse x = house();
+        AliasHouse x = Due.house();
         x.set(0, 2, 3);
         x.set(4, 1, 20);
         x.act(0, 1, 6);
@@ -276,7 +266,7 @@ final class FaceTest {
     }
 
     private static void who() {
-        AliasHouse x = house();
+        AliasHouse x = Due.house();
         x.act(0, 1, 4);
         x.act(0, 2, 4);
         Due.is("wits", x.who(0, 0), 2);
@@ -292,7 +282,7 @@ final class FaceTest {
     }
 
     private static void street() {
-        AliasHouse x = house();
+        AliasHouse x = Due.house();
         x.set(0, 4, 6);
         x.act(0, 1, 4);
         x.act(0, 2, 4);
@@ -310,7 +300,7 @@ final class FaceTest {
     }
 
     private static void book() {
-        AliasHouse x = house();
+        AliasHouse x = Due.house();
         Due.lines(x, 0, "seen 1000; gains 0; costs 0;", 3);
         x.act(0, 0, 3);
         x.act(0, 1, 3);
@@ -360,7 +350,7 @@ final class FaceTest {
     }
 
     private static void undo() {
-        AliasHouse x = house();
+        AliasHouse x = Due.house();
         x.set(0, 3, 9);
         Due.lines(x, 0, "seen 1000;", 1);
         Due.lines(x, 2, "on 0 at 0 eyes 5 7; on 0 at 0 give 1 50;", 2);
@@ -390,7 +380,7 @@ final class FaceTest {
     }
 
     private static void sixAreKept() {
-        AliasHouse x = house();
+        AliasHouse x = Due.house();
         for (int s = 0; s < 9; s++) {
             x.act(0, 0, s);
             Due.is("kept", x.look(14), Math.min(6, s + 1));
@@ -417,7 +407,7 @@ final class FaceTest {
     }
 
     private static void undoOfStrikeAndPayment() {
-        AliasHouse x = house();
+        AliasHouse x = Due.house();
         Due.lines(x, 0, "costs 99; gains 0;", 2);
         x.set(4, 1, 70);
         x.act(0, 1, 4);
@@ -446,7 +436,7 @@ final class FaceTest {
     }
 
     private static int undoneDay() {
-        AliasHouse x = house();
+        AliasHouse x = Due.house();
         x.set(4, 0, 9);
         x.hours(24);
         Due.is("two less", x.of(0, 5), 7);
@@ -457,7 +447,7 @@ final class FaceTest {
     }
 
     private static AliasHouse walked() {
-        AliasHouse x = house();
+        AliasHouse x = Due.house();
         x.act(0, 0, 4);
         return x;
     }
@@ -638,7 +628,7 @@ final class FaceTest {
 
     /** THE BOOK of the image is its own: other lines are written here in the place of those that were undone. */
     private static void imageOfTheBook() {
-        AliasHouse x = house();
+        AliasHouse x = Due.house();
         x.set(4, 0, 51);
         x.hours(1);
         x.image(true);
@@ -654,7 +644,7 @@ final class FaceTest {
     }
 
     private static void look() {
-        AliasHouse x = house();
+        AliasHouse x = Due.house();
         Due.is("persons", x.look(0), 2);
         Due.is("aliases", x.look(1), 3);
         x.set(4, 0, 51);
@@ -676,7 +666,7 @@ final class FaceTest {
     private static void extremes() {
         int[] odd = {Integer.MIN_VALUE, Integer.MIN_VALUE + 1, -1000, -2, -1, 0, 1, 10, 1000, Integer.MAX_VALUE - 1, Integer.MAX_VALUE};
         for (int a : odd) {
-            AliasHouse x = house();
+            AliasHouse x = Due.house();
             for (int b : odd) {
                 two(x, a, b);
                 for (int c : odd) {

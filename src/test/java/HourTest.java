@@ -22,18 +22,8 @@ final class HourTest {
         Due.finish("HourTest");
     }
 
-    private static AliasHouse house() {
-        AliasHouse x = new AliasHouse();
-        x.person(2, 100);
-        x.person(3, 5);
-        x.alias(0, 5, 1);
-        x.alias(0, 7, 2);
-        x.alias(1, 2, 1);
-        return x;
-    }
-
     private static void bounds() {
-        AliasHouse x = house();
+        AliasHouse x = Due.house();
         for (int n : new int[] {-1, 0, 61, Integer.MAX_VALUE, Integer.MIN_VALUE}) {
             Due.is("hours(" + n + ")", x.hours(n), -1);
         }
@@ -66,7 +56,7 @@ final class HourTest {
     }
 
     private static void diary() {
-        AliasHouse x = house();
+        AliasHouse x = Due.house();
         Due.lines(x, 2, "on 0 at 1 walk 0 5; on 0 at 1 walk 0 6; on 0 at 1 give 1 7; on 0 at 1 eyes 8 3; on 1 at 1 eyes 8 4; on 0 at 2 lie 0;", 6);
         Due.lines(x, 0, "seen 0; costs 0; gains 0;", 3);
         x.hours(1);
@@ -104,7 +94,7 @@ final class HourTest {
     }
 
     private static void fullPurse() {
-        AliasHouse x = house();
+        AliasHouse x = Due.house();
         x.set(2, 0, 9500);
         Due.lines(x, 2, "on 0 at 0 give 0 499; on 0 at 1 give 0 1;", 2);
         x.hours(1);
@@ -114,7 +104,7 @@ final class HourTest {
     }
 
     private static void struckOnesDoNotWalk() {
-        AliasHouse x = house();
+        AliasHouse x = Due.house();
         x.set(4, 0, 51);
         Due.lines(x, 2, "on 0 at 0 walk 0 6; on 0 at 1 walk 0 6; on 0 at 1 lie 0;", 3);
         Due.lines(x, 1, "alias 0 from 2 to 3 in 4;", 1);
@@ -126,7 +116,7 @@ final class HourTest {
     }
 
     private static void sharesOfTheDay() {
-        AliasHouse x = house();
+        AliasHouse x = Due.house();
         Due.lines(x, 0, "seen 0; costs 0; gains 0;", 3);
         Due.lines(x, 1, "alias 0 from 2 to 4 in 7; alias 0 from 4 to 5 in 8; alias 2 from 0 to 0 in 3;", 3);
         x.act(0, 0, 9);
@@ -174,7 +164,7 @@ final class HourTest {
     }
 
     private static void seenByDraws() {
-        AliasHouse x = house();
+        AliasHouse x = Due.house();
         // from STATE 0 the draws of 1000 are 563, 577, 494, 947
         Due.lines(x, 0, "seen 563; costs 0; gains 0;", 3);
         x.act(0, 0, 4);
@@ -209,7 +199,7 @@ final class HourTest {
     }
 
     private static void seenWithAnother() {
-        AliasHouse x = house();
+        AliasHouse x = Due.house();
         Due.lines(x, 0, "seen 1000; costs 0; gains 0;", 3);
         x.act(0, 0, 4);
         x.act(0, 2, 4);
@@ -235,7 +225,7 @@ final class HourTest {
     }
 
     private static void lyingAtHomeIsNotThere() {
-        AliasHouse x = house();
+        AliasHouse x = Due.house();
         Due.lines(x, 0, "seen 1000;", 1);
         x.act(0, 0, 2);
         x.hours(1);
@@ -243,7 +233,7 @@ final class HourTest {
     }
 
     private static void askedOneByOne() {
-        AliasHouse x = house();
+        AliasHouse x = Due.house();
         // the chance of 2 stands on what it knows of itself; the draws are 563, 577, 494
         Due.lines(x, 0, "seen 564 when rank=5; seen 577 when rank=7; seen 495; costs 0; gains 0;", 5);
         x.act(0, 2, 6);
@@ -256,7 +246,7 @@ final class HourTest {
     }
 
     private static void earning() {
-        AliasHouse x = house();
+        AliasHouse x = Due.house();
         Due.lines(x, 0, "seen 0; costs 4; gains 3 when rank=2; gains 50 when rank=5; gains 0;", 5);
         x.act(0, 0, 4);
         x.hours(1);
@@ -276,7 +266,7 @@ final class HourTest {
     }
 
     private static void costsAreAskedBehindGains() {
-        AliasHouse x = house();
+        AliasHouse x = Due.house();
         Due.lines(x, 0, "seen 0; gains 10; costs 1 when purse>14; costs 7;", 4);
         x.act(0, 2, 4);
         x.hours(1);
@@ -284,7 +274,7 @@ final class HourTest {
     }
 
     private static void strikingOff() {
-        AliasHouse x = house();
+        AliasHouse x = Due.house();
         Due.lines(x, 0, "seen 0; costs 0; gains 9;", 3);
         x.set(4, 0, 50);
         x.set(4, 1, 51);
@@ -313,7 +303,7 @@ final class HourTest {
     }
 
     private static void midnight() {
-        AliasHouse x = house();
+        AliasHouse x = Due.house();
         x.set(4, 0, 50);
         x.set(4, 1, 1);
         x.set(4, 2, 90);
@@ -332,7 +322,7 @@ final class HourTest {
     }
 
     private static void orderOfAnHour() {
-        AliasHouse x = house();
+        AliasHouse x = Due.house();
         // the diary gives before cousins are paid, and eyes are changed before anyone is seen
         x.set(2, 0, 0);
         Due.lines(x, 0, "seen eyes*500; costs 0; gains 0;", 3);
@@ -346,7 +336,7 @@ final class HourTest {
         Due.is("30", x.of(0, 5), 30);
         Due.is("30", x.of(1, 5), 30);
         // a share comes behind the diary
-        AliasHouse y = house();
+        AliasHouse y = Due.house();
         Due.lines(y, 2, "on 0 at 0 walk 0 4; on 0 at 0 lie 1;", 2);
         Due.lines(y, 1, "alias 0 from 5 to 6 in 4; alias 1 from 0 to 0 in 9;", 2);
         y.hours(1);
@@ -355,7 +345,7 @@ final class HourTest {
     }
 
     private static void goes() {
-        AliasHouse x = house();
+        AliasHouse x = Due.house();
         Due.is("n 0", x.goes(0, 0), -1);
         Due.is("n 61", x.goes(61, 0), -1);
         Due.is("n -1", x.goes(-1, 0), -1);
@@ -379,7 +369,7 @@ final class HourTest {
     }
 
     private static void keeps() {
-        AliasHouse x = house();
+        AliasHouse x = Due.house();
         Due.is("alias -1", x.keeps(-1), -1);
         Due.is("alias 3", x.keeps(3), -1);
         Due.is("never", x.keeps(0), -1);
@@ -403,7 +393,7 @@ final class HourTest {
     }
 
     private static void thoughtLeavesNothing() {
-        AliasHouse x = house();
+        AliasHouse x = Due.house();
         Due.lines(x, 0, "seen 900;", 1);
         Due.lines(x, 2, "on 0 at 0 eyes 3 4;", 1);
         x.act(0, 0, 3);

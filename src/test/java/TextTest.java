@@ -22,22 +22,12 @@ final class TextTest {
         Due.finish("TextTest");
     }
 
-    private static AliasHouse house() {
-        AliasHouse x = new AliasHouse();
-        x.person(2, 100);
-        x.person(3, 5);
-        x.alias(0, 5, 1);
-        x.alias(0, 7, 2);
-        x.alias(1, 2, 1);
-        return x;
-    }
-
     private static String times(int n, String s) {
         return s.repeat(n);
     }
 
     private static void noSuchText() {
-        AliasHouse x = house();
+        AliasHouse x = Due.house();
         Due.fault(x, 0, "seen", 1, 4);
         Due.is("fault(2)", x.fault(2), -1);
         Due.is("fault(-1)", x.fault(-1), -1);
@@ -52,7 +42,7 @@ final class TextTest {
     }
 
     private static void textStaysBehindAFault() {
-        AliasHouse x = house();
+        AliasHouse x = Due.house();
         Due.lines(x, 0, "seen 7; gains 8;", 2);
         Due.fault(x, 0, "seen 9; gains", 1, 13);
         Due.is("tape is empty", x.end(1), false);
@@ -78,7 +68,7 @@ final class TextTest {
     }
 
     private static void tokens() {
-        AliasHouse x = house();
+        AliasHouse x = Due.house();
         Due.lines(x, 0, "seen5when1<2;gains\n7\n;", 2);
         Due.is("seen", x.of(0, 7), 5);
         Due.is("gains", x.of(0, 9), 7);
@@ -109,7 +99,7 @@ final class TextTest {
     }
 
     private static void numbers() {
-        AliasHouse x = house();
+        AliasHouse x = Due.house();
         Due.lines(x, 0, "seen 0009; gains 9999/1000; costs 9999-9998;", 3);
         Due.is("0009", x.of(0, 7), 9);
         Due.is("9999", x.of(0, 9), 9);
@@ -131,7 +121,7 @@ final class TextTest {
     }
 
     private static void sums() {
-        AliasHouse x = house();
+        AliasHouse x = Due.house();
         Due.is("2+3*4", seen(x, "2+3*4"), 14);
         Due.is("2*3+4", seen(x, "2*3+4"), 10);
         Due.is("9-3-2", seen(x, "9-3-2"), 4);
@@ -161,7 +151,7 @@ final class TextTest {
 
     /** 128*256*256*256 wraps to the least int, -2147483648; by 1000 it is -2147483, not -2147484. */
     private static void towardsZero() {
-        AliasHouse x = house();
+        AliasHouse x = Due.house();
         Due.is("towards 0", seen(x, "128*256*256*256/1000+2147*1000+490"), 7);
     }
 
@@ -171,7 +161,7 @@ final class TextTest {
     }
 
     private static void conditions() {
-        AliasHouse x = house();
+        AliasHouse x = Due.house();
         Due.is("1<2", holds(x, "1<2"), true);
         Due.is("2<2", holds(x, "2<2"), false);
         Due.is("2=2", holds(x, "2=2"), true);
@@ -200,7 +190,7 @@ final class TextTest {
     }
 
     private static void firstLineThatHolds() {
-        AliasHouse x = house();
+        AliasHouse x = Due.house();
         Due.lines(x, 0, "seen 1 when rank=7; costs 9; seen 2 when rank=5; seen 3; seen 4 when rank=2;", 5);
         Due.is("of 0", x.of(0, 7), 2);
         Due.is("of 1", x.of(1, 7), 1);
@@ -215,7 +205,7 @@ final class TextTest {
     }
 
     private static void words() {
-        AliasHouse x = house();
+        AliasHouse x = Due.house();
         x.alias(1, 9, 4);
         x.set(0, 4, 8);
         x.set(0, 3, 6);
@@ -242,7 +232,7 @@ final class TextTest {
     }
 
     private static void openOnes() {
-        AliasHouse x = house();
+        AliasHouse x = Due.house();
         Due.is("8 (", holds(x, times(8, "(") + "1=1" + times(8, ")")), true);
         Due.fault(x, 0, "seen 1 when " + times(9, "(") + "1=1" + times(9, ")") + ";", 3, 20);
         Due.is("8 not", holds(x, times(8, "not ") + "1=1"), true);
@@ -259,7 +249,7 @@ final class TextTest {
     }
 
     private static void lawFaults() {
-        AliasHouse x = house();
+        AliasHouse x = Due.house();
         Due.fault(x, 0, "seen", 1, 4);
         Due.fault(x, 0, "seen   ", 1, 7);
         Due.fault(x, 0, "seen 1", 1, 6);
@@ -288,7 +278,7 @@ final class TextTest {
     }
 
     private static void shares() {
-        AliasHouse x = house();
+        AliasHouse x = Due.house();
         Due.lines(x, 1, "alias 2 from 0 to 23 in 9;alias 0from 23to 23in 0 ;", 2);
         Due.is("lines", x.look(11), 2);
         Due.fault(x, 1, "alias 3 from 0 to 0 in 0;", 2, 6);
@@ -317,7 +307,7 @@ final class TextTest {
     }
 
     private static void diary() {
-        AliasHouse x = house();
+        AliasHouse x = Due.house();
         Due.lines(x, 2, "on 0 at 0 walk 2 9; on 999 at 23 give 1 999; on 1 at 1 eyes 9 9; on 1 at 1 lie 2;", 4);
         Due.is("lines", x.look(12), 4);
         Due.lines(x, 2, "on 0 at 0 give 0 1; on 0 at 0 eyes 0 0;", 2);
@@ -350,7 +340,7 @@ final class TextTest {
     }
 
     private static void streets() {
-        AliasHouse x = house();
+        AliasHouse x = Due.house();
         Due.lines(x, 3, "street 0 by 9; street 9 by 0;", 2);
         Due.is("lines", x.look(13), 2);
         Due.fault(x, 3, "street 10 by 1;", 2, 7);
@@ -369,7 +359,7 @@ final class TextTest {
     }
 
     private static void fullTape() {
-        AliasHouse x = house();
+        AliasHouse x = Due.house();
         // a law of 400 bytes: more than one of them in a row must have room
         String sum = "seen 1" + times(196, "+1") + ";";
         Due.is("bytes", sum.length(), 399);
@@ -387,7 +377,7 @@ final class TextTest {
     }
 
     private static void sixteenLines() {
-        AliasHouse x = house();
+        AliasHouse x = Due.house();
         String[] lines = {"gains 1;", "alias 0from 0to 0in 0;", "on 0at 0lie 0;", "street 0 by 1;"};
         // the 17th line is a fault at its keyword, unless that can't stand there at all
         for (int k = 0; k < 4; k++) {
