@@ -2,6 +2,7 @@
 final class Due {
     static int wrong = 0;
     static int asked = 0;
+    private static String told = "";
 
     private Due() {
     }
@@ -17,11 +18,16 @@ final class Due {
         return x;
     }
 
+    /** Which promise, or part of Terms, is asked about from here on, in which of its sentences: said of each wrong answer. */
+    static void says(String promise, String sentence) {
+        told = promise + ", \"" + sentence + "\": ";
+    }
+
     static void is(String what, long got, long want) {
         asked++;
         if (got != want) {
             wrong++;
-            System.out.println(what + " answered " + got + ", due is " + want);
+            System.out.println(told + what + " answered " + got + ", due is " + want);
         }
     }
 
