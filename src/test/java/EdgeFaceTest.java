@@ -9,6 +9,7 @@ final class EdgeFaceTest {
     }
 
     public static void main(String[] args) {
+        constants();
         newObject();
         twoHouses();
         fiveHundredCalls();
@@ -41,6 +42,11 @@ final class EdgeFaceTest {
         book();
         look();
         Due.finish("EdgeFaceTest");
+    }
+
+    private static void constants() {
+        Due.says("Terms", "The constants: NONE = -1");
+        Due.is("NONE", AliasHouse.NONE, -1);
     }
 
     private static void newObject() {
@@ -132,7 +138,7 @@ final class EdgeFaceTest {
     }
 
     private static void drawsWrap() {
-        Due.says("Terms", "1664525 times itself + 1013904223 (ints, which wrap)");
+        Due.says("Promise 7, Terms", "1664525 times itself + 1013904223 (ints, which wrap)");
         int[][] steps = {{0, 1013904223}, {1, 1015568748}, {-1, 1012239698}, {MAX, -1135243950}, {MIN, -1133579425}};
         for (int[] step : steps) {
             AliasHouse x = Due.house();
@@ -145,7 +151,7 @@ final class EdgeFaceTest {
     }
 
     private static void drawsAreWithoutSign() {
-        Due.says("Terms", "then it is its highest 24 bits (without sign) modulo m");
+        Due.says("Promise 7, Terms", "then it is its highest 24 bits (without sign) modulo m");
         // -1: its highest 24 bits are 16777215
         Due.is("-1 below 216", isSeen(-1, 216), true);
         Due.is("-1 below 215", isSeen(-1, 215), false);
@@ -161,7 +167,7 @@ final class EdgeFaceTest {
     }
 
     private static void drawsOfAThousand() {
-        Due.says("Terms 3 (d)", "a DRAW of 1000: below it SEEN is 10 more");
+        Due.says("Promise 7, Terms 3 (d)", "a DRAW of 1000: below it SEEN is 10 more");
         Due.is("999 below 1000", isSeen(999 << 8, 1000), true);
         Due.is("999 below 999", isSeen(999 << 8, 999), false);
         Due.is("1000 is 0", isSeen(1000 << 8, 1), true);
@@ -224,7 +230,7 @@ final class EdgeFaceTest {
     }
 
     private static void placesUsedAgain() {
-        Due.says("Terms 1", "IN a STREET (HOME at first), OUT 0 at first, SEEN 0 at first, STRUCK 0 at first");
+        Due.says("Promise 4, Terms 1", "IN a STREET (HOME at first), OUT 0 at first, SEEN 0 at first, STRUCK 0 at first");
         AliasHouse x = new AliasHouse();
         x.image(true);
         x.person(9, 99);

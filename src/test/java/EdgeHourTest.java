@@ -65,7 +65,7 @@ final class EdgeHourTest {
     }
 
     private static void diaryAtItsHour() {
-        Due.says("Terms 3 (a)", "Line by line of DIARY for it");
+        Due.says("Promise 7, Terms 3 (a)", "Line by line of DIARY for it");
         AliasHouse x = house(FREE);
         Due.lines(x, 2, "on 0 at 0 eyes 0 1;on 0 at 23 eyes 0 2;on 1 at 0 eyes 0 3;on 1 at 23 eyes 0 4;on 2 at 0 eyes 0 5;", 5);
         int[] hours = {1, 22, 1, 1, 22, 1, 1, 60};
@@ -78,7 +78,7 @@ final class EdgeHourTest {
     }
 
     private static void diaryLineByLine() {
-        Due.says("Terms 3 (a)", "walk: an ALIAS not STRUCK is OUT IN that STREET; lie: not OUT, IN its HOME");
+        Due.says("Promise 7, Terms 3 (a)", "walk: an ALIAS not STRUCK is OUT IN that STREET; lie: not OUT, IN its HOME");
         AliasHouse x = house(FREE);
         Due.lines(x, 2, "on 0 at 0 walk 0 8;on 0 at 0 lie 0;on 0 at 0 lie 1;on 0 at 0 walk 1 8;on 0 at 0 walk 1 7;", 5);
         x.act(0, 0, 5);
@@ -95,7 +95,7 @@ final class EdgeHourTest {
     }
 
     private static void diaryOfStruckOnes() {
-        Due.says("Terms 3 (a)", "walk: an ALIAS not STRUCK");
+        Due.says("Promise 7, Terms 3 (a)", "walk: an ALIAS not STRUCK");
         AliasHouse x = house(FREE);
         x.set(4, 0, 51);
         x.hours(1);
@@ -109,7 +109,7 @@ final class EdgeHourTest {
     }
 
     private static void diaryGives() {
-        Due.says("Terms 3 (a)", "give: PURSE N more (9999 at most)");
+        Due.says("Promise 7, Terms 3 (a)", "give: PURSE N more (9999 at most)");
         int[][] cases = {{0, 1, 1}, {9998, 1, 9999}, {9999, 1, 9999}, {9000, 999, 9999}, {9001, 999, 9999}, {8999, 999, 9998}};
         for (int[] c : cases) {
             AliasHouse x = house(FREE);
@@ -127,7 +127,7 @@ final class EdgeHourTest {
     }
 
     private static void sharesBothHours() {
-        Due.says("Terms 3 (b)", "the first line of it in whose hours HOUR is: it is OUT IN that STREET; (both too)");
+        Due.says("Promise 7, Terms 3 (b)", "the first line of it in whose hours HOUR is: it is OUT IN that STREET; (both too)");
         AliasHouse x = house(FREE);
         Due.lines(x, 1, "alias 0 from 2 to 4 in 8;alias 1 from 0 to 0 in 8;alias 2 from 23 to 23 in 8;", 3);
         int out0 = 0;
@@ -144,7 +144,7 @@ final class EdgeHourTest {
     }
 
     private static void sharesFirstLine() {
-        Due.says("Terms 3 (b)", "the first line of it in whose hours HOUR is");
+        Due.says("Promise 7, Terms 3 (b)", "the first line of it in whose hours HOUR is");
         AliasHouse x = house(FREE);
         Due.lines(x, 1, "alias 1 from 0 to 9 in 9;alias 0 from 1 to 2 in 8;alias 0 from 0 to 3 in 7;alias 0 from 0 to 5 in 6;", 4);
         int[] street = {7, 8, 8, 7, 6, 6, 1};
@@ -160,7 +160,7 @@ final class EdgeHourTest {
     }
 
     private static void sharesOfStruckOnes() {
-        Due.says("Terms 3 (b)", "ALIAS by ALIAS not STRUCK by SHARES");
+        Due.says("Promise 7, Terms 3 (b)", "ALIAS by ALIAS not STRUCK by SHARES");
         AliasHouse x = house(FREE);
         Due.lines(x, 1, "alias 0 from 1 to 23 in 8;alias 1 from 1 to 23 in 8;", 2);
         x.set(4, 0, 51);
@@ -171,7 +171,7 @@ final class EdgeHourTest {
     }
 
     private static void sharesWithoutLines() {
-        Due.says("Terms 3 (b)", "it has lines, but none now: not OUT, HOME (without lines as it is)");
+        Due.says("Promise 7, Terms 3 (b)", "it has lines, but none now: not OUT, HOME (without lines as it is)");
         AliasHouse x = house(FREE);
         for (int a = 0; a < 3; a++) {
             x.act(0, a, 5);
@@ -193,7 +193,7 @@ final class EdgeHourTest {
     }
 
     private static void sharesBehindTheDiary() {
-        Due.says("Terms 3", "(a) .. DIARY; (b) .. SHARES");
+        Due.says("Promise 7, Terms 3", "(a) .. DIARY; (b) .. SHARES");
         AliasHouse x = house(FREE);
         Due.lines(x, 2, "on 0 at 0 walk 0 5;on 0 at 0 lie 1;on 0 at 0 walk 2 5;", 3);
         Due.lines(x, 1, "alias 0 from 9 to 9 in 8;alias 1 from 0 to 0 in 8;", 2);
@@ -204,7 +204,7 @@ final class EdgeHourTest {
     }
 
     private static void cousinsByRank() {
-        Due.says("Terms 3 (c)", "the one with the greatest RANK (of several the least) goes himself");
+        Due.says("Promise 7, Terms 3 (c)", "the one with the greatest RANK (of several the least) goes himself");
         int[][] cases = {{5}, {5, 5}, {5, 6}, {6, 5}, {0, 9, 9}, {9, 0, 9}, {3, 4, 4, 2}, {0, 0, 0}};
         int[] himself = {0, 0, 1, 0, 1, 0, 1, 0};
         for (int i = 0; i < cases.length; i++) {
@@ -221,7 +221,7 @@ final class EdgeHourTest {
     }
 
     private static void cousinsArePaid() {
-        Due.says("Terms 3 (c)", "COUSINS one more, 1 from PURSE, or, if it is 0, DEBT one more");
+        Due.says("Promise 7, Terms 3 (c)", "COUSINS one more, 1 from PURSE, or, if it is 0, DEBT one more");
         for (int purse = 0; purse <= 4; purse++) {
             AliasHouse x = ranks(purse, 1, 2, 3, 4);
             x.hours(1);
@@ -236,7 +236,7 @@ final class EdgeHourTest {
     }
 
     private static void cousinsOnTheirOwn() {
-        Due.says("Terms 3 (c)", "PERSON by PERSON: of his ALIASES OUT");
+        Due.says("Promise 7, Terms 3 (c)", "PERSON by PERSON: of his ALIASES OUT");
         AliasHouse x = house(FREE);
         x.act(0, 1, 1);
         x.act(0, 2, 1);
@@ -269,7 +269,7 @@ final class EdgeHourTest {
     }
 
     private static void seenAbove0() {
-        Due.says("Terms 3 (d)", "seen is asked, is it above 0, a DRAW of 1000");
+        Due.says("Promise 7, Terms 3 (d)", "seen is asked, is it above 0, a DRAW of 1000");
         for (String seen : new String[] {"0", "0-1", "0-9999"}) {
             AliasHouse x = house("seen " + seen + ";");
             x.act(0, 0, 3);
@@ -298,7 +298,7 @@ final class EdgeHourTest {
     }
 
     private static void seenTen() {
-        Due.says("Terms 3 (d)", "SEEN is 10 more (99 at most)");
+        Due.says("Promise 7, Terms 3 (d)", "SEEN is 10 more (99 at most)");
         int[][] cases = {{0, 10}, {40, 50}, {41, 51}, {88, 98}, {89, 99}, {90, 99}, {99, 99}};
         for (int[] c : cases) {
             AliasHouse x = house(SEEN);
@@ -313,7 +313,7 @@ final class EdgeHourTest {
     }
 
     private static void seenThirty() {
-        Due.says("Terms 3 (d)", "is another ALIAS of the same PERSON OUT in the same STREET, 30 more instead");
+        Due.says("Promise 7, Terms 3 (d)", "is another ALIAS of the same PERSON OUT in the same STREET, 30 more instead");
         int[][] cases = {{0, 30}, {20, 50}, {21, 51}, {68, 98}, {69, 99}, {70, 99}, {99, 99}};
         for (int[] c : cases) {
             AliasHouse x = house(SEEN);
@@ -344,7 +344,7 @@ final class EdgeHourTest {
     }
 
     private static void seenInTurn() {
-        Due.says("Terms 3 (d)", "ALIAS by ALIAS OUT: seen is asked");
+        Due.says("Promise 7, Terms 3 (d)", "ALIAS by ALIAS OUT: seen is asked");
         // from STATE 0 the draws of 1000 are 563, 577, 494
         AliasHouse x = house("seen 564 when rank=5;seen 577 when rank=7;seen 495;costs 0;gains 0;");
         for (int a = 2; a >= 0; a--) {
@@ -365,7 +365,7 @@ final class EdgeHourTest {
     }
 
     private static void noDraws() {
-        Due.says("Terms 3 (d)", "DRAW");
+        Due.says("Promise 7, Terms 3 (d)", "DRAW");
         AliasHouse x = house(SEEN);
         x.hours(60);
         Due.is("none is OUT", x.look(9), 0);
@@ -378,7 +378,7 @@ final class EdgeHourTest {
     }
 
     private static void gainsThenCosts() {
-        Due.says("Terms 3 (e)", "gains more into PURSE (9999 at most), then costs out of it");
+        Due.says("Promise 7, Terms 3 (e)", "gains more into PURSE (9999 at most), then costs out of it");
         int[][] cases = {{0, 5, 5, 0, 0}, {0, 5, 6, 0, 1}, {0, 6, 5, 1, 0}, {9999, 99, 0, 9999, 0}, {9999, 99, 99, 9900, 0},
             {9900, 99, 0, 9999, 0}, {9901, 99, 1, 9998, 0}, {0, 0, 99, 0, 99}, {1, 0, 1, 0, 0}, {1, 0, 2, 0, 1}};
         for (int[] c : cases) {
@@ -393,7 +393,7 @@ final class EdgeHourTest {
     }
 
     private static void costsFromAnEmptyPurse() {
-        Due.says("Terms 3 (e)", "what is missing is DEBT more");
+        Due.says("Promise 7, Terms 3 (e)", "what is missing is DEBT more");
         AliasHouse x = house("seen 0;gains 0;costs 99;");
         x.set(2, 1, 0);
         x.act(0, 2, 3);
@@ -406,7 +406,7 @@ final class EdgeHourTest {
     }
 
     private static void oneByOneFromOnePurse() {
-        Due.says("Terms 3 (e)", "ALIAS by ALIAS OUT");
+        Due.says("Promise 7, Terms 3 (e)", "ALIAS by ALIAS OUT");
         // alias 0: PURSE 0, costs 5, all of it DEBT; then alias 1: gains 10, costs 3
         AliasHouse x = house("seen 0;gains 10 when rank=7;gains 0;costs 5 when rank=5;costs 3;");
         x.set(2, 0, 1);
@@ -425,7 +425,7 @@ final class EdgeHourTest {
     }
 
     private static void struckAbove50() {
-        Due.says("Terms 3 (f)", "not STRUCK with SEEN above 50: STRUCK, not OUT, HOME, CAUGHT one more");
+        Due.says("Promise 7, Terms 3 (f)", "not STRUCK with SEEN above 50: STRUCK, not OUT, HOME, CAUGHT one more");
         AliasHouse x = house(FREE);
         x.set(4, 0, 50);
         x.set(4, 1, 51);
@@ -453,7 +453,7 @@ final class EdgeHourTest {
     }
 
     private static void struckWithoutBeingOut() {
-        Due.says("Terms 3 (f)", "ALIAS by ALIAS not STRUCK");
+        Due.says("Promise 7, Terms 3 (f)", "ALIAS by ALIAS not STRUCK");
         AliasHouse x = house("seen 0;gains 9;costs 0;");
         x.set(4, 2, 51);
         x.set(4, 0, 51);
@@ -467,7 +467,7 @@ final class EdgeHourTest {
     }
 
     private static void turnOfTheDay() {
-        Due.says("Terms 3 (g)", "HOUR one more; behind 23 it is 0, DAY one more, SEEN of each 2 less (0 at least)");
+        Due.says("Promise 7, Terms 3 (g)", "HOUR one more; behind 23 it is 0, DAY one more, SEEN of each 2 less (0 at least)");
         AliasHouse x = house(FREE);
         int[] seen = {0, 1, 2, 3, 4, 50};
         for (int a = 3; a < 6; a++) {
@@ -499,7 +499,7 @@ final class EdgeHourTest {
     }
 
     private static void struckBeforeTheDayTurns() {
-        Due.says("Terms 3", "(f) .. SEEN above 50; (g) .. SEEN of each 2 less");
+        Due.says("Promise 7, Terms 3", "(f) .. SEEN above 50; (g) .. SEEN of each 2 less");
         AliasHouse x = house(FREE);
         x.hours(23);
         x.set(4, 0, 51);
@@ -523,7 +523,7 @@ final class EdgeHourTest {
     }
 
     private static void bookOfEachKind() {
-        Due.says("Terms 3", "THE BOOK: DAY, HOUR, what (0 .. 4), who (the ALIAS; 4: the PERSON), how much");
+        Due.says("Promise 15, Terms 3", "THE BOOK: DAY, HOUR, what (0 .. 4), who (the ALIAS; 4: the PERSON), how much");
         AliasHouse x = house("seen 1000;costs 9;gains 0;");
         x.hours(25);
         x.set(2, 1, 0);
@@ -543,7 +543,7 @@ final class EdgeHourTest {
     }
 
     private static void bookIsFull() {
-        Due.says("Terms 3", "THE BOOK (150 lines; no more then)");
+        Due.says("Promise 15, Terms 3", "THE BOOK (150 lines; no more then)");
         AliasHouse x = ranks(0, 1, 2, 3, 4);
         x.hours(49);
         Due.is("147", x.look(8), 147);
@@ -577,7 +577,7 @@ final class EdgeHourTest {
     }
 
     private static void fullBookGoesBack() {
-        Due.says("Terms 4", "UNDO: goes back (STATE, THE BOOK, too)");
+        Due.says("Promise 40, Terms 4", "UNDO: goes back (STATE, THE BOOK, too)");
         AliasHouse x = ranks(0, 1, 2, 3, 4);
         x.hours(51);
         x.undo();
@@ -619,7 +619,7 @@ final class EdgeHourTest {
     }
 
     private static void goesSeenBy500() {
-        Due.says("Terms 4", "no DRAWS: one is seen, if seen is 500 at least");
+        Due.says("Promise 16, Terms 4", "no DRAWS: one is seen, if seen is 500 at least");
         for (int seen : new int[] {0, 1, 499, 500, 501, 1000}) {
             AliasHouse x = house("seen " + seen + ";costs 2;gains 0;");
             x.act(0, 0, 3);
@@ -639,7 +639,7 @@ final class EdgeHourTest {
     }
 
     private static void goesLeavesNothing() {
-        Due.says("Terms 4", "IN THOUGHT (nothing of it stays; no DRAWS)");
+        Due.says("Promise 16, Terms 4", "IN THOUGHT (nothing of it stays; no DRAWS)");
         AliasHouse x = house("seen 900;costs 20;gains 0;");
         Due.text(x, 2, "on 0 at 3 eyes 3 4;on 0 at 3 walk 2 9;on 0 at 4 give 1 9;");
         Due.text(x, 1, "alias 0 from 2 to 5 in 6;");
@@ -686,7 +686,7 @@ final class EdgeHourTest {
         for (int a : new int[] {-1, 3, 18, MIN, MAX}) {
             Due.is("keeps(" + a + ")", x.keeps(a), -1);
         }
-        Due.says("Terms 4", "for how many HOURS yet it is not STRUCK (NONE: more than 100; 0: it is)");
+        Due.says("Promise 17, Terms 4", "for how many HOURS yet it is not STRUCK (NONE: more than 100; 0: it is)");
         Due.is("never", x.keeps(2), -1);
         x.set(4, 2, 50);
         Due.is("50", x.keeps(2), -1);
@@ -699,7 +699,7 @@ final class EdgeHourTest {
     }
 
     private static void keepsAHundred() {
-        Due.says("Terms 4", "NONE: more than 100");
+        Due.says("Promise 17, Terms 4", "NONE: more than 100");
         // the day turns behind 24, 48, 72 and 96 hours: 8 less; from day 4 on it is seen each hour
         AliasHouse x = house("seen 1000 when day=4;seen 0;costs 0;gains 0;");
         x.act(0, 0, 3);
@@ -711,7 +711,7 @@ final class EdgeHourTest {
     }
 
     private static void keepsBySeeing() {
-        Due.says("Terms 4", "for how many HOURS yet it is not STRUCK");
+        Due.says("Promise 17, Terms 4", "for how many HOURS yet it is not STRUCK");
         AliasHouse x = house(SEEN);
         Due.text(x, 1, "alias 0 from 3 to 3 in 8;");
         // seen once a day, 10 more and then 2 less: 8, 16, 24, 32, 40, and 50 on the sixth day: never above 50 in 100 hours

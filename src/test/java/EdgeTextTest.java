@@ -142,7 +142,7 @@ final class EdgeTextTest {
     }
 
     private static void sixteenLines() {
-        Due.says("Terms 2", "16 lines of each at most");
+        Due.says("Promise 10, Terms 2", "16 lines of each at most");
         for (int k = 0; k <= 3; k++) {
             AliasHouse x = Due.house();
             Due.lines(x, k, LINE[k].repeat(15), 15);
@@ -153,7 +153,7 @@ final class EdgeTextTest {
     }
 
     private static void seventeenthAtItsKeyword() {
-        Due.says("Terms 2", "FAULTS 3 (at its KEYWORD) the 17th line of a text; at one place the least");
+        Due.says("Promise 11, Terms 2", "FAULTS 3 (at its KEYWORD) the 17th line of a text; at one place the least");
         String[] keyword = {"gains", "alias", "on", "street"};
         for (int k = 0; k <= 3; k++) {
             AliasHouse x = Due.house();
@@ -174,7 +174,7 @@ final class EdgeTextTest {
     }
 
     private static void words() {
-        Due.says("Terms 2", "letters as many as stand together are KEYWORDS (those told here for that text) or none");
+        Due.says("Promise 11, Terms 2", "letters as many as stand together are KEYWORDS (those told here for that text) or none");
         AliasHouse x = Due.house();
         for (char c : new char[] {'a', 'm', 'z', 'A', 'M', 'Z'}) {
             Due.fault(x, 0, "gains" + c + " 1;", 1, 0);
@@ -203,7 +203,7 @@ final class EdgeTextTest {
     }
 
     private static void digits() {
-        Due.says("Terms 2", "digits as many as stand together NUMBERS of 1 to 4 digits or none");
+        Due.says("Promise 11, Terms 2", "digits as many as stand together NUMBERS of 1 to 4 digits or none");
         AliasHouse x = Due.house();
         Due.lines(x, 0, "gains 0;", 1);
         Due.is("0", x.of(0, 9), 0);
@@ -231,7 +231,7 @@ final class EdgeTextTest {
     }
 
     private static void signs() {
-        Due.says("Terms 2", "; + - * / ( ) < = > . : another can't stand there");
+        Due.says("Promise 11, Terms 2", "; + - * / ( ) < = > . : another can't stand there");
         AliasHouse x = Due.house();
         for (char c = 0; c < 256; c++) {
             boolean blank = c == 32 || c == 10;
@@ -249,7 +249,7 @@ final class EdgeTextTest {
     }
 
     private static void blanks() {
-        Due.says("Terms 2", "Blanks (32, 10) between");
+        Due.says("Promise 10, Terms 2", "Blanks (32, 10) between");
         AliasHouse x = Due.house();
         Due.lines(x, 0, "\n\n gains \n 5 \n; \n", 1);
         Due.is("gains", x.of(0, 9), 5);
@@ -283,7 +283,7 @@ final class EdgeTextTest {
     }
 
     private static void theEnd() {
-        Due.says("Terms 2", "1 what can't stand there (the end: the text's length)");
+        Due.says("Promise 11, Terms 2", "1 what can't stand there (the end: the text's length)");
         AliasHouse x = Due.house();
         String[] whole = {"gains 1 + 2 * 3 / 4 when ( not 1 < 2 or 3 = 4 and 5 > 6 ) ;", "alias 0 from 1 to 2 in 3 ;",
             "on 0 at 1 walk 2 3 ;", "street 1 by 2 ;"};
@@ -303,7 +303,7 @@ final class EdgeTextTest {
     }
 
     private static void firstByItsPlace() {
-        Due.says("Terms 2", "FAULTS, the first by its place");
+        Due.says("Promise 11, Terms 2", "FAULTS, the first by its place");
         AliasHouse x = Due.house();
         Due.fault(x, 0, "gains 1/0 x", 2, 8);
         Due.fault(x, 0, "gains x 1/0", 1, 6);
@@ -324,7 +324,7 @@ final class EdgeTextTest {
     }
 
     private static void partByNought() {
-        Due.says("Terms 2", "2 (at the NUMBER) a part by 0");
+        Due.says("Promise 11, Terms 2", "2 (at the NUMBER) a part by 0");
         AliasHouse x = Due.house();
         for (String nought : new String[] {"0", "00", "000", "0000"}) {
             Due.fault(x, 0, "gains 8 / " + nought + ";", 2, 10);
@@ -337,7 +337,7 @@ final class EdgeTextTest {
         Due.lines(x, 0, "gains 0/9999;", 1);
         Due.is("0 by 9999", x.of(0, 9), 0);
         Due.lines(x, 0, "gains 9*0;", 1);
-        Due.says("Terms 2", "T = U {* U | / NUMBER}");
+        Due.says("Promise 11, Terms 2", "T = U {* U | / NUMBER}");
         Due.fault(x, 0, "gains 8/rank;", 1, 8);
         Due.fault(x, 0, "gains 8/(2);", 1, 8);
         Due.fault(x, 0, "gains 8/-2;", 1, 8);
@@ -353,7 +353,7 @@ final class EdgeTextTest {
     }
 
     private static void quotients() {
-        Due.says("Terms 2", "/ goes towards 0");
+        Due.says("Promise 12, Terms 2", "/ goes towards 0");
         Due.is("7/2", worth("7/2"), 3);
         Due.is("8/2", worth("8/2"), 4);
         Due.is("1/2", worth("1/2"), 0);
@@ -367,7 +367,7 @@ final class EdgeTextTest {
     }
 
     private static void wraps() {
-        Due.says("Terms 2", "Ints, which wrap");
+        Due.says("Promise 12, Terms 2", "Ints, which wrap");
         Due.is("2 to the 32nd", worth("256*256*256*256+5"), 5);
         // -102745 and some over
         Due.is("9999 to the 3rd is -1027349969", worth("9999*9999*9999/9999+9999*10+2755+5"), 5);
@@ -387,7 +387,7 @@ final class EdgeTextTest {
     }
 
     private static void bindings() {
-        Due.says("Terms 2", "B = A {or A}. A = C {and C}. C = .. | not C | ( B ). E = T {(+ | -) T}. T = U {* U | / NUMBER}");
+        Due.says("Promise 12, Terms 2", "B = A {or A}. A = C {and C}. C = .. | not C | ( B ). E = T {(+ | -) T}. T = U {* U | / NUMBER}");
         Due.is("9-3-2", worth("9-3-2"), 4);
         Due.is("2+3*4", worth("2+3*4"), 14);
         Due.is("20-2*3+1", worth("20-2*3+1"), 15);
@@ -410,13 +410,21 @@ final class EdgeTextTest {
     }
 
     private static void comparisons() {
-        Due.says("Terms 2", "C = E (< | = | >) E");
+        Due.says("Promise 12, Terms 2", "C = E (< | = | >) E");
         String[] sign = {"<", "=", ">"};
         for (int a = 1; a <= 3; a++) {
             boolean[] due = {a < 2, a == 2, a > 2};
             for (int i = 0; i < 3; i++) {
                 Due.is(a + sign[i] + "2", so(a + sign[i] + "2"), due[i]);
                 Due.is("sums", so(a + "+1" + sign[i] + "9/3"), due[i]);
+                Due.is("not " + a + sign[i] + "2", so("not " + a + sign[i] + "2"), !due[i]);
+                Due.is("not not " + a + sign[i] + "2", so("not not " + a + sign[i] + "2"), due[i]);
+                for (int j = 0; j < 3; j++) {
+                    String other = a + sign[j] + "2";
+                    Due.is(i + " and " + j, so(a + sign[i] + "2 and " + other), due[i] && due[j]);
+                    Due.is(i + " or " + j, so(a + sign[i] + "2 or " + other), due[i] || due[j]);
+                    Due.is("not (" + i + " or " + j + ")", so("not(" + a + sign[i] + "2 or " + other + ")"), !(due[i] || due[j]));
+                }
             }
         }
         AliasHouse x = Due.house();
@@ -436,7 +444,7 @@ final class EdgeTextTest {
     }
 
     private static void openOnes() {
-        Due.says("Terms 2", "3 (at it) the 9th ( or not that is open");
+        Due.says("Promise 11, Terms 2", "3 (at it) the 9th ( or not that is open");
         AliasHouse x = Due.house();
         for (int open = 1; open <= 8; open++) {
             Due.is(open + " (", so("(".repeat(open) + "1=1" + ")".repeat(open)), true);
@@ -455,7 +463,7 @@ final class EdgeTextTest {
     }
 
     private static void openOnesTogether() {
-        Due.says("Terms 2", "3 (at it) the 9th ( or not that is open");
+        Due.says("Promise 11, Terms 2", "3 (at it) the 9th ( or not that is open");
         AliasHouse x = Due.house();
         String start = "gains 1 when ";
         Due.is("four of each", so("not(".repeat(4) + "1=1" + ")".repeat(4)), true);
@@ -472,7 +480,7 @@ final class EdgeTextTest {
     }
 
     private static void shareAlias() {
-        Due.says("Terms 2", "2 (at the NUMBER) an ALIAS that there is not");
+        Due.says("Promise 11, Terms 2", "2 (at the NUMBER) an ALIAS that there is not");
         AliasHouse x = new AliasHouse();
         Due.fault(x, 1, "alias 0 from 0 to 0 in 0;", 2, 6);
         x.person(0, 0);
@@ -488,7 +496,7 @@ final class EdgeTextTest {
     }
 
     private static void shareHours() {
-        Due.says("Terms 2", "1 SHARES: 0 .. 23, the second not below the first; both too");
+        Due.says("Promise 11, Terms 2", "1 SHARES: 0 .. 23, the second not below the first; both too");
         AliasHouse x = Due.house();
         Due.lines(x, 1, "alias 0 from 0 to 23 in 0;alias 0 from 23 to 23 in 0;alias 0 from 0 to 0 in 0;", 3);
         Due.fault(x, 1, "alias 0 from 24 to 24 in 0;", 2, 13);
@@ -506,7 +514,7 @@ final class EdgeTextTest {
     }
 
     private static void shareStreet() {
-        Due.says("Terms 2", "2 (at the NUMBER) one beyond its bounds: STREET");
+        Due.says("Promise 11, Terms 2", "2 (at the NUMBER) one beyond its bounds: STREET");
         AliasHouse x = Due.house();
         Due.lines(x, 1, "alias 0 from 0 to 0 in 0;alias 0 from 0 to 0 in 9;", 2);
         Due.fault(x, 1, "alias 0 from 0 to 0 in 10;", 2, 23);
@@ -517,7 +525,7 @@ final class EdgeTextTest {
     }
 
     private static void diaryDay() {
-        Due.says("Terms 2", "2 DIARY: DAY 0 .. 999");
+        Due.says("Promise 11, Terms 2", "2 DIARY: DAY 0 .. 999");
         AliasHouse x = Due.house();
         Due.lines(x, 2, "on 0 at 0 lie 0;on 999 at 0 lie 0;", 2);
         Due.fault(x, 2, "on 1000 at 0 lie 0;", 2, 3);
@@ -525,7 +533,7 @@ final class EdgeTextTest {
     }
 
     private static void diaryHour() {
-        Due.says("Terms 2", "2 DIARY: HOUR 0 .. 23");
+        Due.says("Promise 11, Terms 2", "2 DIARY: HOUR 0 .. 23");
         AliasHouse x = Due.house();
         Due.lines(x, 2, "on 0 at 0 lie 0;on 0 at 23 lie 0;", 2);
         Due.fault(x, 2, "on 0 at 24 lie 0;", 2, 8);
@@ -533,7 +541,7 @@ final class EdgeTextTest {
     }
 
     private static void diaryWalk() {
-        Due.says("Terms 2", "2 DIARY: walk ALIAS STREET");
+        Due.says("Promise 11, Terms 2", "2 DIARY: walk ALIAS STREET");
         AliasHouse x = Due.house();
         Due.lines(x, 2, "on 0 at 0 walk 0 0;on 0 at 0 walk 2 9;", 2);
         Due.fault(x, 2, "on 0 at 0 walk 3 0;", 2, 15);
@@ -544,7 +552,7 @@ final class EdgeTextTest {
     }
 
     private static void diaryGive() {
-        Due.says("Terms 2", "2 DIARY: give PERSON N: give 1 .. 999; a PERSON that there is not");
+        Due.says("Promise 11, Terms 2", "2 DIARY: give PERSON N: give 1 .. 999; a PERSON that there is not");
         AliasHouse x = Due.house();
         Due.lines(x, 2, "on 0 at 0 give 0 1;on 0 at 0 give 1 999;", 2);
         x.hours(1);
@@ -563,7 +571,7 @@ final class EdgeTextTest {
     }
 
     private static void diaryEyes() {
-        Due.says("Terms 2", "2 DIARY: eyes STREET N: eyes 0 .. 9");
+        Due.says("Promise 11, Terms 2", "2 DIARY: eyes STREET N: eyes 0 .. 9");
         AliasHouse x = new AliasHouse();
         x.set(0, 0, 5);
         Due.lines(x, 2, "on 0 at 0 eyes 0 0;on 0 at 0 eyes 9 9;", 2);
@@ -576,7 +584,7 @@ final class EdgeTextTest {
     }
 
     private static void diaryLie() {
-        Due.says("Terms 2", "2 DIARY: lie ALIAS");
+        Due.says("Promise 11, Terms 2", "2 DIARY: lie ALIAS");
         AliasHouse x = Due.house();
         Due.lines(x, 2, "on 0 at 0 lie 0;on 0 at 0 lie 2;", 2);
         Due.fault(x, 2, "on 0 at 0 lie 3;", 2, 14);
@@ -588,7 +596,7 @@ final class EdgeTextTest {
     }
 
     private static void streets() {
-        Due.says("Terms 2", "3 STREETS (unlike): 2 (at the NUMBER) the same STREET again");
+        Due.says("Promise 11, Terms 2", "3 STREETS (unlike): 2 (at the NUMBER) the same STREET again");
         AliasHouse x = new AliasHouse();
         Due.lines(x, 3, "street 0 by 9;street 9 by 8;", 2);
         Due.fault(x, 3, "street 0 by 0;", 2, 12);
@@ -600,7 +608,7 @@ final class EdgeTextTest {
     }
 
     private static void streetsEitherWay() {
-        Due.says("Terms 2", "street STREET by STREET (either way)");
+        Due.says("Promise 14, Terms 2", "street STREET by STREET (either way)");
         AliasHouse x = new AliasHouse();
         Due.lines(x, 3, "street 9 by 0;street 4 by 5;street 5 by 4;street 4 by 5;", 4);
         Due.is("beside 0", x.street(0, 2), 512);
@@ -611,7 +619,7 @@ final class EdgeTextTest {
     }
 
     private static void lawHeld() {
-        Due.says("Terms 2", "seen held to 0 .. 1000, costs, gains to 0 .. 99");
+        Due.says("Promise 12, Terms 2", "seen held to 0 .. 1000, costs, gains to 0 .. 99");
         String[] word = {"seen", "costs", "gains"};
         int[] most = {1000, 99, 99};
         for (int i = 0; i < 3; i++) {
@@ -631,7 +639,7 @@ final class EdgeTextTest {
     }
 
     private static void lawWithoutLine() {
-        Due.says("Terms 2", "none: seen: 100 times eyes less 50 times wits, costs: 1 and rank, gains: 2 times rank");
+        Due.says("Promise 12, Terms 2", "none: seen: 100 times eyes less 50 times wits, costs: 1 and rank, gains: 2 times rank");
         AliasHouse x = Due.house();
         for (int eyes = 0; eyes <= 9; eyes += 3) {
             for (int wits = 0; wits <= 9; wits++) {
@@ -655,7 +663,7 @@ final class EdgeTextTest {
     }
 
     private static void lawFirstLine() {
-        Due.says("Terms 2", "E of the first line with that word whose B is so, or that has none");
+        Due.says("Promise 12, Terms 2", "E of the first line with that word whose B is so, or that has none");
         AliasHouse x = Due.house();
         Due.lines(x, 0, "seen 1 when rank>5;gains 9;seen 2 when rank>4;seen 3;seen 4 when rank>1;", 5);
         Due.is("rank 5", x.of(0, 7), 2);
@@ -673,7 +681,7 @@ final class EdgeTextTest {
     }
 
     private static void lawWords() {
-        Due.says("Terms 2", "rank; wits, purse: of its PERSON; eyes: of the STREET IN which it is; known: SEEN; street; hour; day");
+        Due.says("Promise 12, Terms 2", "rank; wits, purse: of its PERSON; eyes: of the STREET IN which it is; known: SEEN; street; hour; day");
         AliasHouse x = Due.house();
         x.hours(47);
         x.set(0, 1, 3);
@@ -699,7 +707,7 @@ final class EdgeTextTest {
     }
 
     private static void others() {
-        Due.says("Terms 2", "others: how many other ALIASES are OUT in that STREET");
+        Due.says("Promise 12, Terms 2", "others: how many other ALIASES are OUT in that STREET");
         AliasHouse x = new AliasHouse();
         x.person(0, 0);
         for (int a = 0; a < 18; a++) {

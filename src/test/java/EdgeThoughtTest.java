@@ -155,7 +155,7 @@ final class EdgeThoughtTest {
     }
 
     private static void wayInARow() {
-        Due.says("Terms 4", "one goes from STREET to STREET by those beside one another, 5 minutes each: WAY: minutes (NONE)");
+        Due.says("Promise 19, Terms 4", "one goes from STREET to STREET by those beside one another, 5 minutes each: WAY: minutes (NONE)");
         AliasHouse x = row();
         for (int a = 0; a <= 9; a++) {
             for (int b = 0; b <= 9; b++) {
@@ -172,7 +172,7 @@ final class EdgeThoughtTest {
     }
 
     private static void wayByTheShortest() {
-        Due.says("Terms 4", "WAY of two STREETS: minutes");
+        Due.says("Promise 19, Terms 4", "WAY of two STREETS: minutes");
         AliasHouse ring = streets(0, 1, 1, 2, 2, 3, 3, 4, 4, 5, 5, 6, 6, 7, 7, 8, 8, 9, 9, 0);
         for (int b = 0; b <= 9; b++) {
             Due.is("on a ring, to " + b, ring.persons(0, b), 5 * Math.min(b, 10 - b));
@@ -184,7 +184,7 @@ final class EdgeThoughtTest {
     }
 
     private static void fiveMinutesEach() {
-        Due.says("Terms 4", "5 minutes each (and is there as he comes): PERSONS: the fewest who can have been all");
+        Due.says("Promise 19, Terms 4", "5 minutes each (and is there as he comes): PERSONS: the fewest who can have been all");
         for (int far = 0; far <= 9; far++) {
             AliasHouse x = row();
             for (int wait : new int[] {0, 1, 5 * far - 1, 5 * far, 5 * far + 1, 99}) {
@@ -204,7 +204,7 @@ final class EdgeThoughtTest {
     }
 
     private static void thereAsHeComes() {
-        Due.says("Terms 4", "and is there as he comes");
+        Due.says("Promise 19, Terms 4", "and is there as he comes");
         AliasHouse x = row();
         int[] minutes = {0, 5, 10, 15, 20, 25, 30, 35, 40, 45};
         for (int i = 0; i < 10; i++) {
@@ -224,7 +224,7 @@ final class EdgeThoughtTest {
     }
 
     private static void fewestOfTen() {
-        Due.says("Terms 4", "PERSONS: the fewest who can have been all");
+        Due.says("Promise 19, Terms 4", "PERSONS: the fewest who can have been all");
         AliasHouse x = row();
         Due.is("none", x.persons(-1, 0), 0);
         for (int i = 0; i < 10; i++) {
@@ -299,7 +299,7 @@ final class EdgeThoughtTest {
     }
 
     private static void groups() {
-        Due.says("Terms 4", "GROUPS: how many persons there are at most");
+        Due.says("Promise 21, Terms 4", "GROUPS: how many persons there are at most");
         AliasHouse x = new AliasHouse();
         int[][] told = {{0, 9}, {9, 0}, {8, 7}, {7, 6}, {8, 6}, {0, 8}, {1, 2}, {3, 4}, {2, 3}, {5, 9}, {1, 0}, {4, 6}};
         int[] due = {9, 9, 8, 7, 7, 6, 5, 4, 3, 2, 1, 1};
@@ -315,7 +315,7 @@ final class EdgeThoughtTest {
     }
 
     private static void whetherItCanBe() {
-        Due.says("Terms 4", "whether that can be (no group with two that are not one): 1, 0; FEWEST (NONE: it can't be)");
+        Due.says("Promise 21, Terms 4", "whether that can be (no group with two that are not one): 1, 0; FEWEST (NONE: it can't be)");
         for (int far = 1; far <= 9; far++) {
             AliasHouse x = new AliasHouse();
             x.pair(0, far, false);
@@ -336,7 +336,7 @@ final class EdgeThoughtTest {
     }
 
     private static void fewest() {
-        Due.says("Terms 4", "FEWEST: the fewest persons (names that are not one apart)");
+        Due.says("Promise 21, Terms 4", "FEWEST: the fewest persons (names that are not one apart)");
         for (int n = 2; n <= 5; n++) {
             AliasHouse x = new AliasHouse();
             for (int a = 0; a < n; a++) {
@@ -364,7 +364,7 @@ final class EdgeThoughtTest {
     }
 
     private static void fewestOfGroups() {
-        Due.says("Terms 4", "FEWEST: names that are not one apart");
+        Due.says("Promise 21, Terms 4", "FEWEST: names that are not one apart");
         AliasHouse x = new AliasHouse();
         // five groups of two names; which of the two names is told does not count
         for (int g = 0; g < 5; g++) {
@@ -423,7 +423,7 @@ final class EdgeThoughtTest {
         for (int what : new int[] {-1, 3, MIN, MAX}) {
             Due.is("speakers(" + what + ")", x.speakers(what), -1);
         }
-        Due.says("Terms 4", "MOST: the most who can speak true (NONE: no way); SURE: (a set; no way: 0)");
+        Due.says("Promise 23, Terms 4", "MOST: the most who can speak true (NONE: no way); SURE: (a set; no way: 0)");
         Due.is("WAYS without a word", x.speakers(0), 256);
         Due.is("MOST", x.speakers(1), 8);
         Due.is("SURE", x.speakers(2), 0);
@@ -437,7 +437,7 @@ final class EdgeThoughtTest {
     }
 
     private static void mostOfTenWords() {
-        Due.says("Terms 4", "WAYS: in how many ways; MOST: the most who can speak true");
+        Due.says("Promise 23, Terms 4", "WAYS: in how many ways; MOST: the most who can speak true");
         AliasHouse star = new AliasHouse();
         for (int b = 1; b <= 7; b++) {
             star.says(0, b, false);
@@ -513,7 +513,7 @@ final class EdgeThoughtTest {
     }
 
     private static void swingsOfLess() {
-        Due.says("Terms 4", "SWINGS of i: in how many sets of the others it makes q of less");
+        Due.says("Promise 25, Terms 4", "SWINGS of i: in how many sets of the others it makes q of less");
         AliasHouse x = new AliasHouse();
         x.vote(10);
         x.vote(7);
@@ -541,7 +541,7 @@ final class EdgeThoughtTest {
     }
 
     private static void swingsOfAll() {
-        Due.says("Terms 4", "VOTES: up to 6 told weights (1 .. 30), q (1 .. 180)");
+        Due.says("Promise 25, Terms 4", "VOTES: up to 6 told weights (1 .. 30), q (1 .. 180)");
         int[][] cases = {{30, 30, 30, 30, 30, 30}, {1, 1, 1, 1, 1, 1}, {30, 20, 10, 5, 2, 1}, {1, 30}, {17}};
         for (int[] weights : cases) {
             for (int i = 0; i < weights.length; i++) {
@@ -557,7 +557,7 @@ final class EdgeThoughtTest {
     }
 
     private static void neverSwing() {
-        Due.says("Terms 4", "how many never swing");
+        Due.says("Promise 25, Terms 4", "how many never swing");
         int[][] cases = {{30, 30, 30, 30, 30, 30}, {30, 20, 10, 5, 2, 1}, {3, 3, 1}};
         for (int[] weights : cases) {
             AliasHouse x = new AliasHouse();
@@ -583,7 +583,7 @@ final class EdgeThoughtTest {
     }
 
     private static void coats() {
-        Due.says("Terms 4", "the fewest coats so that all lines that overlap in an hour have each its own");
+        Due.says("Promise 26, Terms 4", "the fewest coats so that all lines that overlap in an hour have each its own");
         AliasHouse x = Due.house();
         coatsDue(x, "", 0, 0);
         coatsDue(x, "alias 0 from 0 to 0 in 0;", 1, 0);
@@ -598,7 +598,7 @@ final class EdgeThoughtTest {
     }
 
     private static void coatsOfSixteen() {
-        Due.says("Terms 4", "COATS: of 16 lines at most");
+        Due.says("Promise 26, Terms 4", "COATS: of 16 lines at most");
         AliasHouse x = Due.house();
         coatsDue(x, "alias 0from 23to 23in 0;".repeat(16), 16, 23);
         coatsDue(x, "alias 0from 0to 22in 0;".repeat(15) + "alias 1from 22to 23in 0;", 16, 22);
@@ -608,7 +608,7 @@ final class EdgeThoughtTest {
     }
 
     private static void firstHourOfMost() {
-        Due.says("Terms 4", "the first HOUR of most lines (none: 0, 0)");
+        Due.says("Promise 26, Terms 4", "the first HOUR of most lines (none: 0, 0)");
         AliasHouse x = Due.house();
         coatsDue(x, "alias 0 from 20 to 23 in 0;alias 1 from 22 to 23 in 0;alias 2 from 1 to 4 in 0;alias 2 from 4 to 5 in 0;", 2, 4);
         coatsDue(x, "alias 0 from 5 to 9 in 0;alias 1 from 2 to 4 in 0;", 1, 2);
@@ -621,7 +621,7 @@ final class EdgeThoughtTest {
     }
 
     private static void watch() {
-        Due.says("Terms 4", "WATCH: the fewest STREETS to be watched so that each of them or one beside it is");
+        Due.says("Promise 26, Terms 4", "WATCH: the fewest STREETS to be watched so that each of them or one beside it is");
         watchDue(new AliasHouse(), 1023);
         watchDue(streets(0, 9), 511);
         watchDue(streets(9, 8, 9, 7, 9, 6, 9, 5, 9, 4, 9, 3, 9, 2, 9, 1, 9, 0), 512);
@@ -655,7 +655,7 @@ final class EdgeThoughtTest {
     }
 
     private static void watchOfSeveral() {
-        Due.says("Terms 4", "the set (of several the least)");
+        Due.says("Promise 26, Terms 4", "the set (of several the least)");
         int[][] cases = {{8, 9}, {0, 1}, {0, 1, 1, 2}, {7, 8, 8, 9}, {0, 1, 1, 2, 2, 3, 3, 4, 4, 5, 5, 6, 6, 7, 7, 8, 8, 9},
             {9, 0, 8, 1, 7, 2, 6, 3, 5, 4}, {0, 5, 5, 9, 9, 4, 4, 8, 8, 3, 3, 7, 7, 2, 2, 6, 6, 1, 1, 0},
             {0, 1, 0, 4, 0, 5, 1, 2, 1, 6, 2, 3, 2, 7, 3, 4, 3, 8, 4, 9, 5, 7, 7, 9, 9, 6, 6, 8, 8, 5}};
@@ -680,7 +680,7 @@ final class EdgeThoughtTest {
     // BIRTHDAYS
 
     private static void birthdays() {
-        Due.says("Terms 4", "BIRTHDAYS of n (1 .. 8) in d (1 .. 20) days: that two fall together as a fraction in lowest terms");
+        Due.says("Promise 27, Terms 4", "BIRTHDAYS of n (1 .. 8) in d (1 .. 20) days: that two fall together as a fraction in lowest terms");
         for (int n = 1; n <= 8; n++) {
             AliasHouse x = new AliasHouse();
             for (int d = 1; d <= 20; d++) {
@@ -781,7 +781,7 @@ final class EdgeThoughtTest {
     }
 
     private static void shift() {
-        Due.says("Terms 4", "SHIFT: by how much (0 .. 25, modulo 26) each letter of the first is behind that of the second");
+        Due.says("Promise 29, Terms 4", "SHIFT: by how much (0 .. 25, modulo 26) each letter of the first is behind that of the second");
         for (int shift = 0; shift <= 25; shift++) {
             int[] is = new int[12];
             int[] was = new int[12];
@@ -798,7 +798,7 @@ final class EdgeThoughtTest {
     }
 
     private static void shiftUnlike() {
-        Due.says("Terms 4", "NONE: unlike, or not of the same length; both empty: 0");
+        Due.says("Promise 29, Terms 4", "NONE: unlike, or not of the same length; both empty: 0");
         int[] twelve = {0, 1, 2, 3, 4, 5, 6, 7, 8, 9, 10, 11};
         for (int i = 0; i < 12; i++) {
             int[] other = twelve.clone();
@@ -814,7 +814,7 @@ final class EdgeThoughtTest {
     }
 
     private static void mirror() {
-        Due.says("Terms 4", "MIRROR: whether the first is the second read from behind (1, 0)");
+        Due.says("Promise 29, Terms 4", "MIRROR: whether the first is the second read from behind (1, 0)");
         for (int n = 0; n <= 12; n++) {
             int[] is = new int[n];
             int[] was = new int[n];
@@ -919,7 +919,7 @@ final class EdgeThoughtTest {
     }
 
     private static void fits() {
-        Due.says("Terms 4", "beds (shortest, longest): the most boots that find a bed each");
+        Due.says("Promise 32, Terms 4", "beds (shortest, longest): the most boots that find a bed each");
         int[][] cases = {{30, 30, 30}, {50, 50, 50}, {30, 30, 50}, {50, 30, 50}, {40, 40, 41}, {41, 40, 41}};
         for (int[] c : cases) {
             AliasHouse x = new AliasHouse();
@@ -955,7 +955,7 @@ final class EdgeThoughtTest {
     }
 
     private static void bedOfBoot() {
-        Due.says("Terms 4", "the bed of boot i (of several ways the first, boot by boot, the least bed, ahead of none)");
+        Due.says("Promise 32, Terms 4", "the bed of boot i (of several ways the first, boot by boot, the least bed, ahead of none)");
         bedsDue(new int[] {40, 40, 40}, new int[] {30, 50, 30, 50, 30, 50}, 0, 1, 2);
         bedsDue(new int[] {40, 40, 40}, new int[] {30, 50, 30, 50}, 0, 1, -1);
         bedsDue(new int[] {40, 40, 40}, new int[] {41, 50, 30, 50}, 1, -1, -1);
@@ -974,7 +974,7 @@ final class EdgeThoughtTest {
     }
 
     private static void bedsFull() {
-        Due.says("Terms 4", "BOOTS: up to 8 told sizes and beds (up to 8)");
+        Due.says("Promise 32, Terms 4", "BOOTS: up to 8 told sizes and beds (up to 8)");
         int[] any = {30, 50, 30, 50, 30, 50, 30, 50, 30, 50, 30, 50, 30, 50, 30, 50};
         bedsDue(new int[] {30, 33, 36, 39, 42, 45, 48, 50}, any, 0, 1, 2, 3, 4, 5, 6, 7);
         int[] down = {50, 50, 48, 50, 46, 50, 44, 50, 42, 50, 40, 50, 38, 50, 30, 50};
@@ -1035,7 +1035,7 @@ final class EdgeThoughtTest {
     }
 
     private static void named() {
-        Due.says("Terms 4", "NAMED: up to 10 letters: of how many unlike rows of k (0 .. 5) can they be laid");
+        Due.says("Promise 34, Terms 4", "NAMED: up to 10 letters: of how many unlike rows of k (0 .. 5) can they be laid");
         int[][] boxes = {{}, {25}, {0, 0, 0, 0, 0, 0, 0, 0, 0, 0}, {0, 1, 2, 3, 4, 5, 6, 7, 8, 9}, {0, 0, 0, 0, 0, 25, 25, 25, 25, 25},
             {3, 3, 3, 3, 9}, {7, 7, 8, 8, 9, 9, 9, 10, 11, 11}, {1, 2, 3, 4}};
         for (int i = 0; i < boxes.length; i++) {
@@ -1095,7 +1095,7 @@ final class EdgeThoughtTest {
     }
 
     private static void net() {
-        Due.says("Terms 4", "a net of w (1 .. 10) STREETS in a row (s .. s + w - 1): where it catches most: how many; the first s");
+        Due.says("Promise 35, Terms 4", "a net of w (1 .. 10) STREETS in a row (s .. s + w - 1): where it catches most: how many; the first s");
         for (int w = 1; w <= 10; w++) {
             netDue(new AliasHouse(), w, 0, 0);
             netDue(lodging(0), w, 1, 0);
@@ -1127,7 +1127,7 @@ final class EdgeThoughtTest {
     }
 
     private static void netOfStruckOnes() {
-        Due.says("Terms 4", "ALIASES not STRUCK (IN them)");
+        Due.says("Promise 35, Terms 4", "ALIASES not STRUCK (IN them)");
         AliasHouse x = lodging(2, 2, 2, 7, 7);
         netDue(x, 1, 3, 2);
         x.set(4, 0, 51);
@@ -1152,7 +1152,7 @@ final class EdgeThoughtTest {
     // HOOP
 
     private static void hoop() {
-        Due.says("Terms 4", "HOOP on n (1 .. 60) stones, k (1 .. 60) on each time, from stone 0: how many till one again; the last");
+        Due.says("Promise 36, Terms 4", "HOOP on n (1 .. 60) stones, k (1 .. 60) on each time, from stone 0: how many till one again; the last");
         for (int n = 1; n <= 60; n++) {
             AliasHouse x = new AliasHouse();
             for (int k = 1; k <= 60; k++) {
@@ -1254,7 +1254,7 @@ final class EdgeThoughtTest {
     }
 
     private static void fewestGifts() {
-        Due.says("Terms 4", "FEWEST gifts by which all are even");
+        Due.says("Promise 38, Terms 4", "FEWEST gifts by which all are even");
         giftsDue(0);
         giftsDue(1, 0, 1, 1);
         giftsDue(0, 0, 1, 50, 1, 0, 50);
@@ -1292,7 +1292,7 @@ final class EdgeThoughtTest {
     }
 
     private static void game() {
-        Due.says("Terms 4", "GAME of two piles a, b (0 .. 40): how many of the first, of the second (the fewest in all, then of the first)");
+        Due.says("Promise 39, Terms 4", "GAME of two piles a, b (0 .. 40): how many of the first, of the second (the fewest in all, then of the first)");
         boolean[][] lost = lostPiles();
         for (int a = 0; a <= 40; a++) {
             AliasHouse x = new AliasHouse();
@@ -1335,7 +1335,7 @@ final class EdgeThoughtTest {
     }
 
     private static void nothingOfItStays() {
-        Due.says("Terms 4", "IN THOUGHT (nothing of it stays; no DRAWS)");
+        Due.says("Promises 18 to 39, Terms 4", "IN THOUGHT (nothing of it stays; no DRAWS)");
         AliasHouse x = Due.house();
         Due.lines(x, 3, "street 0 by 1;", 1);
         Due.lines(x, 1, "alias 0 from 1 to 2 in 3;", 1);

@@ -137,7 +137,7 @@ final class EdgeUndoTest {
     }
 
     private static void eachGoesBack() {
-        Due.says("Terms 4", "the latest HOUR, WALK, LYING, PAYMENT not undone yet goes back (STATE, THE BOOK, too)");
+        Due.says("Promise 40, Terms 4", "the latest HOUR, WALK, LYING, PAYMENT not undone yet goes back (STATE, THE BOOK, too)");
         for (int deeds = 1; deeds <= DEEDS; deeds++) {
             for (int back = 1; back <= Math.min(6, deeds); back++) {
                 AliasHouse x = after(deeds);
@@ -150,7 +150,7 @@ final class EdgeUndoTest {
     }
 
     private static void sixAreKept() {
-        Due.says("Terms 4", "6 are kept");
+        Due.says("Promise 40, Terms 4", "6 are kept");
         for (int deeds = 0; deeds <= DEEDS; deeds++) {
             AliasHouse x = after(deeds);
             int kept = Math.min(6, deeds);
@@ -164,7 +164,7 @@ final class EdgeUndoTest {
     }
 
     private static void sixHoursAreKept() {
-        Due.says("Terms 4", "the latest HOUR; 6 are kept");
+        Due.says("Promise 40, Terms 4", "the latest HOUR; 6 are kept");
         for (int n : new int[] {1, 5, 6, 7, 59, 60}) {
             AliasHouse x = Due.house();
             x.hours(n);
@@ -180,7 +180,7 @@ final class EdgeUndoTest {
     }
 
     private static void sixAgain() {
-        Due.says("Terms 4", "6 are kept");
+        Due.says("Promise 40, Terms 4", "6 are kept");
         AliasHouse x = Due.house();
         x.hours(6);
         x.undo();
@@ -204,7 +204,7 @@ final class EdgeUndoTest {
     }
 
     private static void otherWayOn() {
-        Due.says("Terms 4", "the latest .. not undone yet goes back");
+        Due.says("Promise 40, Terms 4", "the latest .. not undone yet goes back");
         AliasHouse x = after(DEEDS);
         for (int i = DEEDS; i > 5; i--) {
             x.undo();
@@ -246,7 +246,7 @@ final class EdgeUndoTest {
     }
 
     private static void whatIsToldForgets() {
-        Due.says("Terms 4", "whatever else is told .. forgets them");
+        Due.says("Promise 40, Terms 4", "whatever else is told .. forgets them");
         AliasHouse x = walked();
         x.state(0);
         forgets("state(0) as it is", x);
@@ -269,7 +269,7 @@ final class EdgeUndoTest {
     }
 
     private static void textsThatForget() {
-        Due.says("Terms 4", "whatever else is told but THE LAW, STREETS");
+        Due.says("Promise 40, Terms 4", "whatever else is told but THE LAW, STREETS");
         String[] line = {"seen 1;", "alias 1 from 0 to 0 in 0;", "on 500 at 0 lie 1;", "street 0 by 1;"};
         for (int k = 0; k <= 3; k++) {
             for (String text : new String[] {"", line[k], line[k].repeat(3)}) {
@@ -285,13 +285,13 @@ final class EdgeUndoTest {
     }
 
     private static void whatDoesNotForget() {
-        Due.says("Terms 4", "what is told for thought (AT ONCE, ONE, SPEAKERS, VOTES, NOTES, BOOTS, NAMED, PAYS)");
+        Due.says("Promise 40, Terms 4", "what is told for thought (AT ONCE, ONE, SPEAKERS, VOTES, NOTES, BOOTS, NAMED, PAYS)");
         for (int i = 0; i < 21; i++) {
             AliasHouse x = walked();
             Due.is("call " + i + " is done", thought(x, i) >= 0, true);
             keeps("call " + i, x);
         }
-        Due.says("Terms 4", "the taking of THE IMAGE does not");
+        Due.says("Promise 40, Terms 4", "the taking of THE IMAGE does not");
         AliasHouse x = walked();
         Due.is("taken", x.image(true), true);
         keeps("image(true)", x);
@@ -358,7 +358,7 @@ final class EdgeUndoTest {
     }
 
     private static void refusedForgetsNothing() {
-        Due.says("Terms 4", "whatever else is told (what is refused is not told)");
+        Due.says("Promise 40, Terms 4", "whatever else is told (what is refused is not told)");
         AliasHouse x = walked();
         Due.is("person", x.person(10, 0), -1);
         keeps("person(10, 0)", x);
@@ -414,7 +414,7 @@ final class EdgeUndoTest {
     }
 
     private static void notTakenBack() {
-        Due.says("Terms 4", "THE LAW, STREETS and what is told for thought stay when an HOUR goes back");
+        Due.says("Promise 40, Terms 4", "THE LAW, STREETS and what is told for thought stay when an HOUR goes back");
         AliasHouse x = walked();
         Due.lines(x, 0, "seen 7;", 1);
         Due.lines(x, 3, "street 0 by 1;", 1);
@@ -448,7 +448,7 @@ final class EdgeUndoTest {
     }
 
     private static void turnOfTheDayGoesBack() {
-        Due.says("Terms 4", "the latest HOUR goes back (behind 23)");
+        Due.says("Promise 40, Terms 4", "the latest HOUR goes back (behind 23)");
         AliasHouse x = Due.house();
         x.hours(23);
         x.set(4, 0, 1);
@@ -481,7 +481,7 @@ final class EdgeUndoTest {
     }
 
     private static void imageForgets() {
-        Due.says("Terms 4", "what can be undone (nothing then)");
+        Due.says("Promise 41, Terms 4", "what can be undone (nothing then)");
         AliasHouse x = after(5);
         x.image(true);
         Due.is("gone back to at once", x.image(false), true);
@@ -496,7 +496,7 @@ final class EdgeUndoTest {
     }
 
     private static void imageTakenForgetsNothing() {
-        Due.says("Terms 4", "(the taking of THE IMAGE does not) forgets them");
+        Due.says("Promise 41, Terms 4", "(the taking of THE IMAGE does not) forgets them");
         AliasHouse x = after(5);
         x.image(true);
         Due.is("five", x.look(14), 5);
@@ -504,13 +504,13 @@ final class EdgeUndoTest {
             Due.is("undo", x.undo(), true);
         }
         alike("three back", x, after(2));
-        Due.says("Terms 4", "as it was when it was taken");
+        Due.says("Promise 41, Terms 4", "as it was when it was taken");
         x.image(false);
         alike("what is undone behind it", x, after(5));
     }
 
     private static void imageMoreThanOnce() {
-        Due.says("Terms 4", "gone back to it may be more than once");
+        Due.says("Promise 41, Terms 4", "gone back to it may be more than once");
         AliasHouse x = after(3);
         x.image(true);
         for (int i = 0; i < 4; i++) {
@@ -530,7 +530,7 @@ final class EdgeUndoTest {
     }
 
     private static void imageTakenAgain() {
-        Due.says("Terms 4", "as it was when it was taken");
+        Due.says("Promise 41, Terms 4", "as it was when it was taken");
         AliasHouse x = after(2);
         x.image(true);
         deed(x, 2);
@@ -617,7 +617,7 @@ final class EdgeUndoTest {
     }
 
     private static void imageOfFullTables() {
-        Due.says("Terms 4", "THE IMAGE: all that is and was told");
+        Due.says("Promise 41, Terms 4", "THE IMAGE: all that is and was told");
         AliasHouse x = told();
         fullTables(x);
         x.image(true);
@@ -642,7 +642,7 @@ final class EdgeUndoTest {
     }
 
     private static void imageWithoutTape() {
-        Due.says("Terms 4", "all .. but the TAPE");
+        Due.says("Promise 41, Terms 4", "all .. but the TAPE");
         AliasHouse x = Due.house();
         Due.tape(x, "street 0 by 1;", 0);
         x.image(true);
@@ -658,7 +658,7 @@ final class EdgeUndoTest {
     }
 
     private static void imageWithoutFault() {
-        Due.says("Terms 4", "all .. but fault()");
+        Due.says("Promise 41, Terms 4", "all .. but fault()");
         AliasHouse x = Due.house();
         Due.fault(x, 0, "seen 1/0;", 2, 7);
         x.image(true);
@@ -674,7 +674,7 @@ final class EdgeUndoTest {
     }
 
     private static void imageGoesOn() {
-        Due.says("Terms 4", "THE IMAGE: all that is (STATE, too), and all goes on from it");
+        Due.says("Promise 41, Terms 4", "THE IMAGE: all that is (STATE, too), and all goes on from it");
         AliasHouse x = after(3);
         x.image(true);
         x.hours(60);
