@@ -441,6 +441,7 @@ final class EdgeFaceTest {
         Due.is("all eighteen", all.hours(60), 18);
         Due.is("none twice", all.hours(60), 0);
         Due.is("CAUGHT", all.look(4), 18);
+        Due.is("those STRUCK", all.look(7), 0x3ffff);
     }
 
     /** A house so many hours old. */
@@ -650,6 +651,16 @@ final class EdgeFaceTest {
         Due.is("beside 9", x.street(9, 2), 257);
         Due.is("beside 8", x.street(8, 2), 512);
         Due.is("beside 1", x.street(1, 2), 0);
+        AliasHouse full = new AliasHouse();
+        full.person(0, 0);
+        for (int a = 0; a < 18; a++) {
+            full.alias(0, 0, 0);
+            full.act(0, a, 9);
+        }
+        Due.is("all OUT in 9", full.street(9, 1), 0x3ffff);
+        Due.is("all of one PERSON", full.who(0, 2), 0x3ffff);
+        Due.is("all of them OUT", full.who(0, 3), 0x3ffff);
+        Due.is("none OUT in 8", full.street(8, 1), 0);
     }
 
     private static void book() {
