@@ -1581,20 +1581,11 @@ public final class AliasHouse {
 
         /** C, with so many ( and not open about it. */
         private boolean single(int open) {
-            boolean not = isKeyword(NOT);
-            if (not || isSign('(')) {
-                if (open >= MOST_OPEN) {
-                    return fail(TOO_MANY);
-                }
-                step();
-                if (!not) {
-                    return condition(open + 1) && stepSign(')');
-                }
-                if (!single(open + 1)) {
-                    return false;
-                }
-                draft.law.add(Law.NOT);
-                return true;
+            if (isKeyword(NOT)) {
+                return denied(open);
+            }
+            if (isSign('(')) {
+                return enclosed(open);
             }
             if (!sum()) {
                 return false;
@@ -1608,6 +1599,26 @@ public final class AliasHouse {
                 return false;
             }
             draft.law.add(compared);
+            return true;
+        }
+
+        private boolean denied(int open) {
+            if (!opens(open) || !single(open + 1)) {
+                return false;
+            }
+            draft.law.add(Law.NOT);
+            return true;
+        }
+
+        private boolean enclosed(int open) {
+            return opens(open) && condition(open + 1) && stepSign(')');
+        }
+
+        private boolean opens(int open) {
+            if (open >= MOST_OPEN) {
+                return fail(TOO_MANY);
+            }
+            step();
             return true;
         }
 
@@ -1822,13 +1833,17 @@ public final class AliasHouse {
                 int bit = 1 << place;
                 if ((allowed[i] & ~tried & bit) != 0) {
                     tried |= bit;
-                    if (holder[place] == NONE || finds(holder[place], depth + 1)) {
+                    if (comesFree(place, depth)) {
                         holder[place] = i;
                         return true;
                     }
                 }
             }
             return false;
+        }
+
+        private boolean comesFree(int place, int depth) {
+            return holder[place] == NONE || finds(holder[place], depth + 1);
         }
 
         /** The place of that which is asked for, of 0 .. n - 1, when each takes the least that costs none behind it its own. */
@@ -1954,19 +1969,29 @@ public final class AliasHouse {
             return Math.max(1, fewest);
         }
 
-        /** Tries for name, and those behind it, each of the persons used and a new one; what is no better is left. */
+        /** Places name, and those behind it, among the persons used and new ones; what is no better is left. */
         private void placeName(int name, int used) {
             if (used >= fewest) {
                 return;
             }
-            if (name >= NAMES) {
+            int next = nextApart(name);
+            if (next >= NAMES) {
                 fewest = used;
-                return;
+            } else {
+                tryPersons(next, used);
             }
-            if (group[name] != name || apart[name] == 0) {
-                placeName(name + 1, used);
-                return;
+        }
+
+        /** The first name, from that one on, whose group is named by it and is apart from another. */
+        private int nextApart(int name) {
+            int next = name;
+            while (next < NAMES && (group[next] != next || apart[next] == 0)) {
+                next++;
             }
+            return next;
+        }
+
+        private void tryPersons(int name, int used) {
             for (int p = 0; p <= used && p < NAMES; p++) {
                 int before = p < used ? persons[p] : 0;
                 if ((before & apart[name]) == 0) {
