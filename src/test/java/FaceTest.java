@@ -666,8 +666,8 @@ final class FaceTest {
     private static void extremes() {
         int[] odd = {Integer.MIN_VALUE, Integer.MIN_VALUE + 1, -1000, -2, -1, 0, 1, 10, 1000, Integer.MAX_VALUE - 1, Integer.MAX_VALUE};
         for (int a : odd) {
-            AliasHouse x = Due.house();
             for (int b : odd) {
+                AliasHouse x = Due.house();
                 two(x, a, b);
                 for (int c : odd) {
                     three(x, a, b, c);

@@ -136,22 +136,45 @@ final class LanguageTest {
         Matcher text = Pattern.compile("\"\"\\s*\\+|\\+\\s*\"\"").matcher(code);
         holds("no texts joined by +", !text.find());
         holds("signs 1 to 127", source.chars().allMatch(c -> c < 128));
-        lengths(code);
+        methods(code);
     }
 
-    private static void lengths(String code) {
+    /** A method's body goes from its header to the closing brace that stands as far in as the header. */
+    private static void methods(String code) {
         int start = -1;
         String[] lines = code.split("\n");
         for (int i = 0; i < lines.length; i++) {
-            String indent = lines[i].replaceAll("\\S.*", "");
             boolean opens = lines[i].matches("(    |        )\\S.*\\) \\{") && !lines[i].contains(" class ");
-            if (opens) {
+            if (opens && start < 0) {
                 start = i;
             }
-            if (start >= 0 && lines[i].equals(indent + "}") && indent.length() == lines[start].replaceAll("\\S.*", "").length()) {
-                holds("at most sixty lines: " + lines[start].trim(), i - start + 1 <= 60);
+            if (start >= 0 && lines[i].equals(indent(lines[start]) + "}")) {
+                method(lines[start].trim(), String.join("\n", Arrays.copyOfRange(lines, start + 1, i)), i - start + 1);
                 start = -1;
             }
         }
+    }
+
+    private static String indent(String line) {
+        return line.replaceAll("\\S.*", "");
+    }
+
+    private static void method(String header, String body, int length) {
+        holds("at most sixty lines: " + header, length <= 60);
+        String name = header.replaceAll("\\(.*", "").replaceAll(".* ", "");
+        boolean constructor = Character.isUpperCase(name.charAt(0));
+        holds("nothing is made behind the constructors: " + header, constructor || !Pattern.compile("\\bnew\\b").matcher(body).find());
+        boolean callsItself = Pattern.compile("(?<![.\\w])" + name + "\\(").matcher(body).find() && !overloads(name);
+        holds("a method that calls itself is private and static: " + header, !callsItself || header.startsWith("private static "));
+    }
+
+    /** Two methods of one name in a class: which of them is called can't be seen from the name. */
+    private static boolean overloads(String name) {
+        for (Class<?> c : AliasHouse.class.getDeclaredClasses()) {
+            if (Arrays.stream(c.getDeclaredMethods()).filter(m -> m.getName().equals(name)).count() > 1) {
+                return true;
+            }
+        }
+        return false;
     }
 }

@@ -2,6 +2,10 @@ import java.util.Random;
 
 /** The same calls, by lot, on a house and on its twin; the lot is the same each time. */
 final class TwinTest {
+    /** What later calls answer is free. */
+    private static final int CALLS = 512;
+    private static final int LOOKS = 180;
+
     private final Random lot;
     private final AliasHouse x = new AliasHouse();
     private final Twin t = new Twin();
@@ -16,26 +20,27 @@ final class TwinTest {
     }
 
     public static void main(String[] args) {
-        int runs = args.length > 0 ? Integer.parseInt(args[0]) : 300;
+        int runs = args.length > 0 ? Integer.parseInt(args[0]) : 400;
         for (int run = 0; run < runs && Due.wrong == 0; run++) {
             TwinTest test = new TwinTest("run " + run, run);
             test.wild = run % 3 == 0 ? 4 : 12;
             if (run % 5 != 0) {
                 test.people();
             }
-            test.play(run % 4);
+            test.play(run % 4, CALLS - LOOKS);
         }
         TwinTest far = new TwinTest("far day", 1);
         far.people();
         for (int i = 0; i < 400; i++) {
             far.is("hours(60)", far.x.hours(60), far.t.hours(60));
         }
-        far.play(0);
+        far.play(0, CALLS - 30);
         Due.finish("TwinTest");
     }
 
-    private void play(int kind) {
-        while (made < 512 && Due.wrong == 0) {
+    /** Calls until there were so many; the rest of the calls that an object has looks what came of them. */
+    private void play(int kind, int calls) {
+        while (made < calls && Due.wrong == 0) {
             if (kind == 1) {
                 hourCall();
             } else if (kind == 2) {
@@ -46,9 +51,11 @@ final class TwinTest {
                 hourCall();
             }
         }
-        all();
+        while (made < CALLS && Due.wrong == 0) {
+            lookCall();
+        }
         if (Due.wrong != 0) {
-            System.out.println(calls);
+            System.out.println(this.calls);
         }
     }
 
@@ -94,23 +101,30 @@ final class TwinTest {
         }
     }
 
-    private void all() {
-        for (int what = -1; what <= 15; what++) {
-            is("look(" + what + ")", x.look(what), t.look(what));
-        }
-        for (int i = -1; i <= t.look(1); i++) {
-            for (int what = -1; what <= 10; what++) {
+    private void lookCall() {
+        switch (lot.nextInt(6)) {
+            case 0 -> {
+                int what = lot.nextInt(17) - 1;
+                is("look(" + what + ")", x.look(what), t.look(what));
+            }
+            case 1 -> {
+                int i = lot.nextInt(t.look(1) + 2) - 1;
+                int what = lot.nextInt(12) - 1;
                 is("of(" + i + ", " + what + ")", x.of(i, what), t.of(i, what));
             }
-        }
-        for (int i = -1; i <= 10; i++) {
-            for (int what = -1; what <= 4; what++) {
+            case 2 -> {
+                int i = lot.nextInt(t.look(0) + 2) - 1;
+                int what = lot.nextInt(6) - 1;
                 is("who(" + i + ", " + what + ")", x.who(i, what), t.who(i, what));
+            }
+            case 3 -> {
+                int i = lot.nextInt(12) - 1;
+                int what = lot.nextInt(5) - 1;
                 is("street(" + i + ", " + what + ")", x.street(i, what), t.street(i, what));
             }
-        }
-        for (int i = -1; i <= t.look(8); i++) {
-            for (int what = -1; what <= 5; what++) {
+            default -> {
+                int i = lot.nextInt(t.look(8) + 2) - 1;
+                int what = lot.nextInt(7) - 1;
                 is("book(" + i + ", " + what + ")", x.book(i, what), t.book(i, what));
             }
         }
