@@ -1982,10 +1982,10 @@ public final class AliasHouse {
             }
         }
 
-        /** The first name, from that one on, whose group is named by it and is apart from another. */
+        /** The first name, from that one on, whose group is apart from another: only the least of a group tells that. */
         private int nextApart(int name) {
             int next = name;
-            while (next < NAMES && (group[next] != next || apart[next] == 0)) {
+            while (next < NAMES && apart[next] == 0) {
                 next++;
             }
             return next;
