@@ -306,6 +306,12 @@ final class EdgeFaceTest {
     private static void setSeen() {
         Due.says("Promise 5", "4 SEEN of ALIAS who: SEEN 0 .. 99");
         setEdges(Due.house(), 4, 2, 99);
+        AliasHouse x = Due.house();
+        for (int v = 0; v <= 99; v++) {
+            Due.is("set(4, 0, " + v + ")", x.set(4, 0, v), true);
+            Due.is("SEEN then", x.of(0, 5), v);
+            Due.is("not STRUCK before an HOUR has gone by", x.of(0, 6), 0);
+        }
     }
 
     private static void setOthers() {
